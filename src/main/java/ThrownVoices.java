@@ -500,18 +500,15 @@ public final class ThrownVoices {
 
         static int kindOf(int packed) {
             for (int w = 0; w < OWN_COUNT; w++) {
-                if (isOwn(packed, NAME_LETTERS * w)) return w;
+                int own = 0;
+                for (int k = 0; k < NAME_LETTERS; k++) {
+                    int cell = NAME_LETTERS * w + k;
+                    int sign = cell < OWN.length() ? OWN.charAt(cell) : ' ';
+                    if (sign != ' ') own |= (sign - 'a' + 1) << (5 * k);
+                }
+                if (own == packed) return w;
             }
             return NAME;
-        }
-
-        private static boolean isOwn(int packed, int cell) {
-            for (int k = 0; k < NAME_LETTERS; k++) {
-                int letter = letterOf(packed, k);
-                int sign = letter == 0 ? ' ' : 'a' + letter - 1;
-                if (cell + k >= OWN.length() || OWN.charAt(cell + k) != sign) return false;
-            }
-            return true;
         }
     }
 
@@ -882,7 +879,6 @@ public final class ThrownVoices {
         }
 
         void copyFrom(Rules other) {
-            count = other.count;
             System.arraycopy(other.steps, 0, steps, 0, steps.length);
             System.arraycopy(other.from, 0, from, 0, from.length);
             System.arraycopy(other.to, 0, to, 0, to.length);

@@ -15,6 +15,8 @@ public final class FaultsTest {
         deep();
         tooMany();
         firstAlongTheText();
+        everyOtherByte();
+        oneAfterTheOther();
         Check.end();
     }
 
@@ -232,5 +234,47 @@ public final class FaultsTest {
         fault(2, VOICE + "voice ^v pitch 99;");
         fault(6, "picks 1;^picks $;");
         fault(1, "picks 1;^;");
+    }
+
+    private static void everyOtherByte() {
+        for (char c = 0; c < 256; c++) {
+            boolean letter = c >= 'a' && c <= 'z';
+            boolean digit = c >= '0' && c <= '9';
+            if (letter || digit || c == 10 || c == 32 || ";()[],+-*/%<>=^".indexOf(c) >= 0) continue;
+            fault(1, "^" + c);
+            fault(1, "^" + c + " v pitch 1;");
+            fault(1, "voice ^" + c + " pitch 1;");
+            fault(1, "voice v ^" + c + " 1;");
+            fault(1, "voice v pitch ^" + c + ";");
+            fault(1, "picks 1^" + c + "1;");
+            fault(1, "mixes 1<2 ^" + c + " all;");
+        }
+    }
+
+    /** What one text left behind, refused or not, is nothing to the next one. */
+    private static void oneAfterTheOther() {
+        ThrownVoices x = new ThrownVoices();
+        for (int times = 0; times < 9; times++) {
+            StringBuilder longRule = new StringBuilder("voice v pitch 1;person p pitch 9 calm 1;wants p at 0 long 1;"
+                    + "stroke 100;mixes all;hush all;picks 2");
+            while (longRule.length() < 1500) longRule.append("+1");
+            Check.put(x, Check.bytes(longRule + ";"));
+            Check.due("town() of a long rule", x.town(), 7);
+            long sum = longRule.chars().filter(c -> c == '+').count() + 2;
+            Check.due("the SUM of a long rule", x.picks(0, 0), sum);
+            Check.due("odds", x.odds(-1), 100);
+            Check.put(x, Check.bytes("voice w pitch 1;voice u pitch 1;picks ((((((("));
+            Check.due("town() ends too soon", x.town(), -1);
+            Check.put(x, Check.bytes("voice w pitch 1;person q pitch 9 calm 5;wants q at 0 long 2;"));
+            Check.due("town() without rules", x.town(), 3);
+            Check.due("VOICES", x.has(0), 1);
+            Check.due("picks without", x.picks(0, 0), 1);
+            x.minutes(1);
+            Check.due("mixes without", x.saying(0, 7), 0);
+            Check.due("odds without stroke", x.odds(0), 0);
+            Check.put(x, Check.bytes("mixes (((((((1)))))))=1;"));
+            Check.due("town() seven deep", x.town(), 1);
+        }
+        Check.due("status(1)", x.status(1), 9);
     }
 }

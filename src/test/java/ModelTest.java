@@ -23,7 +23,10 @@ public final class ModelTest {
                 for (int i = 0; i < 60; i++) brokenTown();
             } else {
                 if (run % 4 != 3) tell(smallTown());
-                for (int i = 0; i < 110; i++) call();
+                for (int i = 0; i < 110; i++) {
+                    if (roll(60) == 0) tell(smallTown());
+                    call();
+                }
                 compareAll();
             }
         }

@@ -136,6 +136,23 @@ public final class PromisesTest {
         due("undo none", x.undo(), false);
         due("town() of nothing", x.town(), 0);
         due("no voices", x.has(0) + x.has(1) + x.has(2), 0);
+        allAsAtFirst();
+    }
+
+    private static void allAsAtFirst() {
+        ThrownVoices x = Check.town(TWO);
+        String first = Check.all(x);
+        x.minutes(2);
+        x.strike(0);
+        x.strike(1);
+        x.train(0, 9);
+        x.minutes(4);
+        Check.put(x, 0, 0, 0);
+        x.hear();
+        due("it went on", Check.all(x).equals(first), false);
+        Check.put(x, Check.bytes(TWO));
+        due("town() once more", x.town(), 10);
+        due("all is as at first", Check.all(x).equals(first), true);
     }
 
     private static void has() {
@@ -280,6 +297,7 @@ public final class PromisesTest {
         due("match(-1) by both", x.match(-1), 13);
         row("match by both", new long[] {x.match(0), x.match(1), x.match(2)}, 1, 0, -1);
         due("match(3)", x.match(3), -1);
+        matchAfterOthers();
         due("match(-2)", x.match(-2), -1);
         // Of like sums the first row: none ahead of a VOICE, then by numbers.
         ThrownVoices y = Check.town("voice a pitch 5;voice b pitch 5;person p pitch 5 calm 9;"
@@ -292,6 +310,20 @@ public final class PromisesTest {
         z.minutes(1);
         due("match(-1) by a busy one", z.match(-1), 0);
         due("match(0) of what SOUNDS", z.match(0), -1);
+    }
+
+    private static void matchAfterOthers() {
+        ThrownVoices x = Check.town("voice a pitch 5;person p pitch 5 calm 9;wants p at 0 long 1;wants p at 0 long 1;"
+                + "picks if(minute>0,1,0);");
+        x.minutes(1);
+        due("match(0) asked first", x.match(0), -1);
+        due("match(1) of a sum of 1", x.match(1), 0);
+        due("match(-1) of a sum of 1", x.match(-1), 1);
+        Check.put(x, Check.bytes("voice a pitch 5;person p pitch 5 calm 9;wants p at 0 long 1;picks 0;"));
+        due("town()", x.town(), 4);
+        x.minutes(1);
+        due("match(-1) of a smaller town", x.match(-1), 0);
+        due("match(0) of a smaller town", x.match(0), -1);
     }
 
     private static void choir() {
@@ -343,6 +375,10 @@ public final class PromisesTest {
         row("tune wrong", new long[] {x.tune(2, 3, 0), x.tune(-1, 3, 0), x.tune(0, 0, 0), x.tune(0, 31, 0),
             x.tune(0, 3, 2), x.tune(0, 3, -1)}, -1, -1, -1, -1, -1, -1);
         x.strike(0);
+        ThrownVoices y = Check.town("voice a pitch 5;person p pitch 5 calm 0;wants p at 0 long 1;picks pitch-8;");
+        row("tune(0, 1, ..)", new long[] {y.tune(0, 1, 0), y.tune(0, 1, 1)}, 9, 1);
+        ThrownVoices z = Check.town("voice a pitch 5;person p pitch 5 calm 0;wants p at 0 long 1;picks pitch-9;");
+        row("tune by no pitch", new long[] {z.tune(0, 30, 0), z.tune(0, 30, 1)}, 0, 0);
         row("tune a STRUCK one", new long[] {x.tune(0, 3, 0), x.tune(0, 3, 1)}, 0, 0);
         due("pitch stays", x.voice(0, 0), 0);
     }
@@ -522,7 +558,15 @@ public final class PromisesTest {
         due("status(3)", x.status(3), 4);
         row("BROKEN", new long[] {x.saying(1, 3), x.saying(1, 5), x.saying(1, 6), x.saying(1, 7)}, 5, 1, 0, 1);
         row("KEPT", new long[] {x.has(12), x.kept(0, 0), x.kept(0, 1), x.kept(0, 2)}, 1, 1, 1, 5);
+        due("has(4)", x.has(4), 1);
+        due("strike(0)", x.strike(0), true);
+        due("has(4)", x.has(4), 2);
+        due("undo()", x.undo(), true);
         due("heal(1)", x.heal(1), true);
+        due("strike(0) alone", x.strike(0), true);
+        due("has(4)", x.has(4), 1);
+        due("undo()", x.undo(), true);
+        due("has(4)", x.has(4), 0);
         due("heal(1) again", x.heal(1), false);
         due("heal(2)", x.heal(2), false);
         due("heal(-1)", x.heal(-1), false);
@@ -562,6 +606,10 @@ public final class PromisesTest {
         due("its MINUTE", x.saying(2, 1), 999);
         due("delay(2, 1) to now", x.delay(2, 1), true);
         due("delay(2, 4)", x.delay(2, 4), true);
+        due("ACTS", x.has(14), 4);
+        due("delay(2, 7)", x.delay(2, 7), true);
+        due("undo()", x.undo(), true);
+        due("its MINUTE as it was", x.saying(2, 1), 4);
         x.minutes(3);
         due("TO COME still", x.saying(2, 3), 0);
         due("minutes(1)", x.minutes(1), 1);
@@ -668,6 +716,34 @@ public final class PromisesTest {
         row("its bytes", new long[] {x.octet(0), x.octet(1), x.octet(2), x.octet(3)}, 0, 0, 199 * 25 % 251, -1);
     }
 
+    /** The largest image there can be, and one with a VOICE that is STRUCK. */
+    private static void otherImages() {
+        StringBuilder text = new StringBuilder("person p pitch 0 calm 1;");
+        for (int v = 0; v < 7; v++) text.append("voice v" + (char) ('a' + v) + " pitch " + v + ";");
+        for (int s = 0; s < 12; s++) text.append("wants p at 0 long 20;");
+        ThrownVoices x = Check.town(text.toString());
+        x.minutes(1);
+        int[] image = Check.image(x);
+        due("the largest image", image.length, 2 + 21 + 84 + 1);
+        x.minutes(30);
+        Check.put(x, image);
+        due("on() the largest", x.on(), true);
+        row("seven SOUND, five WAIT", new long[] {x.has(8), x.has(7), x.has(3), x.saying(6, 5), x.saying(11, 4)}, 7, 5, 1, 6, 1);
+        ThrownVoices y = Check.town("voice v pitch 1;");
+        y.strike(0);
+        image = Check.image(y);
+        y.heal(0);
+        Check.put(y, image);
+        due("on() with a STRUCK one", y.on(), true);
+        due("it is STRUCK", y.voice(0, 1), 1);
+        image[3] = 2;
+        seal(image);
+        refuse(y, image, "a flag is 2");
+        image[3] = 255;
+        seal(image);
+        refuse(y, image, "a flag is 255");
+    }
+
     private static void seal(int[] bytes) {
         int c = 199;
         for (int k = 0; k < bytes.length - 1; k++) c = (5 * c + bytes[k]) % 251;
@@ -707,6 +783,7 @@ public final class PromisesTest {
         refuse(x, java.util.Arrays.copyOf(image, image.length + 1), "a byte more");
         refuse(x, new int[0], "no bytes");
         due("status(5)", x.status(5), wrong.length + 4);
+        otherImages();
         // These can be: the edges of what the document tells.
         int[][] good = {{0, 3, 1, 231}, {2, 9, 4, 99}, {9, 3, 10, 231}, {11, 99, 14, 1}, {13, 2, 14, 0},
             {8, 3, 13, 0}, {8, 5, 13, 0}, {22, 1, 25, 99}, {22, 4, 25, 99}, {23, 0, 24, 0}};

@@ -99,6 +99,13 @@ public final class SumsTest {
         test("not all", false);
         test("not not all", true);
         test("not 1>2", true);
+        test("not 1<2", false);
+        test("not 2>1", false);
+        test("not 1=1", false);
+        test("1<2 and all", true);
+        test("2>1 and all", true);
+        test("1=1 and all", true);
+        test("1<2 and not 2<1 and 2>1 and 1=1", true);
         test("all or not all and not all", true);
         test("[all or not all]and not all", false);
         test("not all and not all or all", true);
