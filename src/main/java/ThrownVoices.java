@@ -720,7 +720,8 @@ public final class ThrownVoices {
             } else if (at('[')) {
                 if (!enter()) return;
                 test();
-                leave(']');
+                require(']');
+                open--;
             } else if (at(Word.ALL)) {
                 next++;
                 draft.rules.addNumber(1);
@@ -759,7 +760,8 @@ public final class ThrownVoices {
             } else if (at('(')) {
                 if (!enter()) return;
                 sum();
-                leave(')');
+                require(')');
+                open--;
             } else if (first == Word.MIN || first == Word.MAX || first == Word.IF) {
                 next++;
                 if (!at('(')) refuse(1);
@@ -773,7 +775,8 @@ public final class ThrownVoices {
                 }
                 require(',');
                 sum();
-                leave(')');
+                require(')');
+                open--;
                 draft.rules.addSign(first);
             } else if (isAsked(first)) {
                 next++;
@@ -801,11 +804,6 @@ public final class ThrownVoices {
             open++;
             next++;
             return true;
-        }
-
-        private void leave(int sign) {
-            require(sign);
-            open--;
         }
 
         private int newName() {
@@ -839,7 +837,7 @@ public final class ThrownVoices {
 
         /** Behind a fault nothing stands any more, so that all reading ends. */
         private boolean at(int wanted) {
-            return fault == 0 && kind() == wanted;
+            return fault == 0 && next >= 0 && next < tokens.count && tokens.kind[next] == wanted;
         }
 
         private int kind() {
