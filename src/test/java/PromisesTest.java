@@ -153,6 +153,11 @@ public final class PromisesTest {
         Check.put(x, Check.bytes(TWO));
         due("town() once more", x.town(), 10);
         due("all is as at first", Check.all(x).equals(first), true);
+        x.minutes(1);
+        due("two SOUND", x.has(8), 2);
+        Check.put(x, Check.bytes(TWO));
+        due("town() while two SOUND", x.town(), 10);
+        due("all is as at first again", Check.all(x).equals(first), true);
     }
 
     private static void has() {
