@@ -545,9 +545,9 @@ public final class ThrownVoices {
             if (size > 0 && letter != inWord) {
                 // Side by side without a blank: what stands ahead is judged first.
                 finish();
-                return bad(i);
+                return bad(i, i);
             }
-            if (size == (letter ? NAME_LETTERS : NUMBER_DIGITS)) return bad(i);
+            if (size == (letter ? NAME_LETTERS : NUMBER_DIGITS)) return bad(i, start);
             if (size == 0) {
                 start = i;
                 inWord = letter;
@@ -567,7 +567,7 @@ public final class ThrownVoices {
                     return true;
                 }
             }
-            return bad(i);
+            return bad(i, i);
         }
 
         private void finish() {
@@ -575,8 +575,9 @@ public final class ThrownVoices {
             size = 0;
         }
 
-        private boolean bad(int i) {
-            add(Word.BAD, i, 0);
+        /** What goes wrong keeps as its value where it begins: a word may do so behind its first byte. */
+        private boolean bad(int i, int first) {
+            add(Word.BAD, i, first);
             return false;
         }
 
@@ -613,12 +614,19 @@ public final class ThrownVoices {
             open = 0;
             int statements = 0;
             for (int i = 0; i < TAPE_BYTES && fault == 0 && !at(Word.END); i++) {
-                if (statements == STATEMENTS && kind() <= Word.STROKE) refuse(6);
+                if (statements == STATEMENTS) refuseOneMore();
                 readStatement(kind());
                 require(';');
                 statements++;
             }
             return fault == 0 ? statements : NONE;
+        }
+
+        /** Whatever the 81st begins with, even a word that goes wrong further on, its first byte counts. */
+        private void refuseOneMore() {
+            boolean wrong = at(Word.BAD);
+            refuse(6);
+            if (wrong) place = value();
         }
 
         private void readStatement(int first) {

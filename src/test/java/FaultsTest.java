@@ -14,6 +14,7 @@ public final class FaultsTest {
         numbers();
         deep();
         tooMany();
+        oneStatementMore();
         firstAlongTheText();
         everyOtherByte();
         oneAfterTheOther();
@@ -213,14 +214,40 @@ public final class FaultsTest {
         fault(6, "picks 1;^picks 1;");
         fault(6, "mixes all;^mixes all;");
         fault(6, "hush all;stroke 1;^hush");
-        StringBuilder strokes = new StringBuilder();
-        for (int i = 0; i < 80; i++) strokes.append("stroke 1;");
-        fault(6, strokes + " ^stroke 1;");
-        fault(6, strokes + "^voice a pitch 1;");
-        fault(6, strokes + "^picks 1;");
-        fault(6, strokes + "^person");
-        fault(1, strokes + "^;");
-        fault(1, strokes + "^pitch");
+    }
+
+    /** What the 81st STATEMENT begins with isn't asked; blanks alone behind the 80th are none. */
+    private static void oneStatementMore() {
+        String strokes = "stroke 1;".repeat(80);
+        String[] begins = {"stroke 1;", "voice a pitch 1;", "picks 1;", "person", "wants p at", "hush $", "mixes mixes",
+            "pitch", "max(1,2);", "name", "voic", "a", "abcdef", "abcdefg", "abcdefgh ", "strokes 1;", "voicesv a",
+            "0", "12;", "1234", "12345", "123456", "12a", "1234abcdefg", "a1", "abcdef1", "abcdefg1", "12345a",
+            ";", ";;", "(", ")", "[", "]", ",", "+", "-", "*", "/", "%", "<", ">", "=", "((((((((", "$", "V", "\t"};
+        for (String first : begins) {
+            fault(6, strokes + "^" + first);
+            fault(6, strokes + " \n ^" + first);
+        }
+        for (char c = 0; c < 256; c++) {
+            if (c != 10 && c != 32 && c != '^') fault(6, strokes + "\n^" + c + c);
+        }
+        fault(6, VOICE + "stroke 1;".repeat(79) + "^voice v pitch 1;");
+        fault(6, "picks 1;" + "stroke 1;".repeat(79) + "^picks 1;");
+        Check.town(strokes);
+        Check.town(strokes + " ");
+        Check.town(strokes + "\n \n" + " ".repeat(870));
+        // One fewer, and what stands there is looked at.
+        String fewer = "stroke 1;".repeat(79);
+        Check.town(fewer);
+        fault(1, fewer + "^;");
+        fault(1, fewer + "^pitch");
+        fault(1, fewer + "^name");
+        fault(1, fewer + "^\0");
+        fault(1, fewer + "abcdef^g");
+        fault(1, fewer + "1234^5");
+        fault(1, fewer + "stroke 1^");
+        fault(1, fewer + "stroke 1 ^stroke 1;");
+        fault(4, fewer + "stroke ^101;$");
+        fault(6, fewer + "stroke 1;^stroke 101;");
     }
 
     private static void firstAlongTheText() {

@@ -213,7 +213,9 @@ final class Model {
         }
 
         Town read() {
-            while (!ahead().isEmpty()) {
+            while (start() < text.length()) {
+                // Ahead of any look at what stands there.
+                if (town.statements == 80) throw new Fault(6, start());
                 String first = ahead();
                 if (!List.of("voice", "person", "wants", "picks", "mixes", "hush", "stroke").contains(first)) {
                     throw wrong();
@@ -227,7 +229,7 @@ final class Model {
                     case "hush" -> town.hush != null;
                     default -> false;
                 };
-                if (many || town.statements == 80) throw new Fault(6, start());
+                if (many) throw new Fault(6, start());
                 take();
                 statement(first);
                 take(";");

@@ -164,9 +164,18 @@ public final class ModelTest {
         return out.append(close).append(";").toString();
     }
 
+    /** As many statements as there may be, one fewer or one more, and something behind them. */
+    private static void fillUp(StringBuilder text) {
+        int statements = (int) text.chars().filter(c -> c == ';').count();
+        for (int most = 79 + roll(3); statements < most; statements++) text.append("stroke 1;");
+        if (roll(2) == 0) text.append(oneOf(" ", "\n"));
+        text.append(brokenPiece());
+    }
+
     private static void brokenTown() {
         StringBuilder text = new StringBuilder(smallTown());
         if (roll(12) == 0) for (int i = 0; i < 78; i++) text.append("stroke 1;");
+        if (roll(12) == 0) fillUp(text);
         if (roll(6) == 0) text.append(deepRule());
         if (roll(12) == 0) text.append("person zed pitch 1 calm 1;wants " + oneOf("zed", "va", "no", "ze") + " at 0 long 1;");
         if (roll(6) == 0) {
