@@ -10,7 +10,8 @@ final class ActBounds {
     private static final String P = "person p pitch 5 calm 9;";
     private static final int[] OTHERS = {MIN, -1000, -2, -1, 1000, MAX};
     // Behind two MINUTES 0 is SAID, 1 SOUNDS by w, 2 is HUSHED, 3 WAITS, 4 is TO COME; v is free.
-    private static final String SEVERAL = VW + "person p pitch 5 calm 0;person q pitch 0 calm 9;wants p at 0 long 1;wants p at 0 long 9;wants p at 0 long 9;"
+    private static final String SEVERAL = VW + "person p pitch 5 calm 0;person q pitch 0 calm 9;wants p at 0 long 1;"
+            + "wants p at 0 long 9;wants p at 0 long 9;"
             + "wants q at 1 long 9;wants q at 900 long 4;mixes busy=2;picks if(tone=0,0,5);stroke 100;";
 
     private ActBounds() { }
@@ -80,7 +81,8 @@ final class ActBounds {
                 Doc.refused(2, "at " + one[0] + " " + call("minutes", one[1]), make, x -> x.minutes(one[1]));
             } else {
                 ThrownVoices x = make.get();
-                Doc.row("at " + one[0] + " " + call("minutes", one[1]), Doc.of(x.minutes(one[1]), x.has(3), x.status(2)), 0, one[0] + one[1], 0);
+                Doc.row("at " + one[0] + " " + call("minutes", one[1]), Doc.of(x.minutes(one[1]), x.has(3), x.status(2)), 0,
+                        one[0] + one[1], 0);
             }
         }
     }
@@ -122,7 +124,8 @@ final class ActBounds {
                 Doc.refused(2, "at " + one[0] + " " + call("chance", one[1]), make, x -> x.chance(one[1]));
             } else {
                 ThrownVoices x = make.get();
-                Doc.row("at " + one[0] + " " + call("chance", one[1]), Doc.of(x.chance(one[1]), x.has(3), x.status(2)), 0, one[0] + one[1], 0);
+                Doc.row("at " + one[0] + " " + call("chance", one[1]), Doc.of(x.chance(one[1]), x.has(3), x.status(2)), 0,
+                        one[0] + one[1], 0);
             }
         }
     }
@@ -135,8 +138,10 @@ final class ActBounds {
         Doc.due("the first", x.strike(0), true);
         Doc.row("it was free", Doc.of(x.voice(0, 1), x.voice(1, 1), x.has(4), x.has(12), x.has(14)), 1, 0, 1, 2, 2);
         Doc.due("the last", x.strike(1), true);
-        Doc.row("it was busy", Doc.of(x.voice(1, 1), x.has(4), x.saying(1, 3), x.saying(1, 5), x.saying(1, 6), x.saying(1, 7)), 1, 2, 5, 1, 0, 1);
-        Doc.row("KEPT by the act", Doc.of(x.has(12), x.kept(2, 0), x.kept(2, 1), x.kept(2, 2), x.has(3), x.status(3)), 3, 2, 1, 5, 2, 0);
+        Doc.row("it was busy", Doc.of(x.voice(1, 1), x.has(4), x.saying(1, 3), x.saying(1, 5), x.saying(1, 6), x.saying(1, 7)),
+                1, 2, 5, 1, 0, 1);
+        Doc.row("KEPT by the act", Doc.of(x.has(12), x.kept(2, 0), x.kept(2, 1), x.kept(2, 2), x.has(3), x.status(3)), 3, 2, 1,
+                5, 2, 0);
         Doc.due("at 999", Doc.at(999, V).strike(0), true);
         Doc.promise(26, "false, refused (3), when it is, or there is none such.");
         for (int v : new int[] {MIN, -1, 2, 7, MAX}) Doc.refused(3, call("strike", v), ActBounds::several, y -> y.strike(v));
@@ -197,7 +202,8 @@ final class ActBounds {
         for (int minute : new int[] {2, 3, 255, 256, 899, 901, 998, 999}) {
             ThrownVoices x = several();
             Doc.due(call("delay", 4, minute), x.delay(4, minute), true);
-            Doc.row("its MINUTE", Doc.of(x.saying(4, 1), x.saying(4, 3), x.saying(4, 2), x.has(14), x.status(3)), minute, 0, 4, 2, 0);
+            Doc.row("its MINUTE", Doc.of(x.saying(4, 1), x.saying(4, 3), x.saying(4, 2), x.has(14), x.status(3)), minute, 0, 4,
+                    2, 0);
         }
         ThrownVoices x = several();
         x.delay(4, 2);
@@ -330,7 +336,8 @@ final class ActBounds {
         x.strike(0);
         Doc.row("by an act at 999", Doc.of(x.kept(0, 0), x.kept(0, 1), x.kept(0, 2)), 999, 0, 5);
         Doc.promise(32, "NONE when there is none such, or for others.");
-        Doc.row("the first beyond", Doc.of(x.kept(1, 0), x.kept(1, 1), x.kept(1, 2), x.kept(0, 3), x.kept(0, -1), x.kept(-1, 0)), -1, -1, -1, -1, -1, -1);
+        Doc.row("the first beyond", Doc.of(x.kept(1, 0), x.kept(1, 1), x.kept(1, 2), x.kept(0, 3), x.kept(0, -1), x.kept(-1,
+                0)), -1, -1, -1, -1, -1, -1);
         for (int other : OTHERS) {
             Doc.due(call("kept", other, 0), x.kept(other, 0), -1);
             Doc.due(call("kept", 0, other), x.kept(0, other), -1);
@@ -374,6 +381,7 @@ final class ActBounds {
         Doc.row("the first beyond", Doc.of(x.octet(13), x.octet(107), x.octet(108)), -1, -1, -1);
         Doc.due("there was none", new ThrownVoices().octet(0), -1);
         Doc.due("town() of nothing", x.town(), 0);
+        Doc.row("of the latest one, though the town is another", Doc.of(x.octet(1), x.octet(2), x.octet(13)), 45, 7, -1);
         Doc.due("a shorter one", x.image(), 3);
         Doc.row("nothing of the longer one", Doc.of(x.octet(2), x.octet(3), x.octet(12)), 199 * 25 % 251, -1, -1);
     }
@@ -417,11 +425,15 @@ final class ActBounds {
     private static final int TO_COME = 36;
 
     private static void onGood() {
-        Doc.promise(35, "(MINUTES 999, waited, begun 99, pitches 9 at most; flags 0, 1; a SAYING that SOUNDS has a VOICE that there is, not STRUCK, no two the same,"
-                + " 1 MINUTE left to as many as it is long; one SAID or BROKEN a VOICE that there is; others 255, not MIXED; one TO COME has waited 0).");
+        Doc.promise(35, "(MINUTES 999, waited, begun 99, pitches 9 at most; flags 0, 1;"
+                + " a SAYING that SOUNDS has a VOICE that there is, not STRUCK, no two the same,"
+                + " 1 MINUTE left to as many as it is long; one SAID or BROKEN a VOICE that there is; others 255, not MIXED;"
+                + " one TO COME has waited 0).");
         int[][] good = {{}, {0, 0, 1, 0}, {0, 3, 1, 231}, {2, 0}, {2, 9}, {3, 1}, {4, 0}, {4, 99}, {W, 9}, {W + 2, 99},
-            {SAID + 1, 3, SAID + 2, 231}, {SAID + 3, 99}, {SAID + 4, 1}, {SAID + 6, 1}, {SAID, 5}, {SAID, 5, SAID + 4, 1, SAID + 6, 1},
-            {SOUNDS + 3, 99}, {SOUNDS + 4, 0}, {SOUNDS + 5, 1}, {SOUNDS + 5, 9}, {SOUNDS + 6, 0}, {SOUNDS, 3, SOUNDS + 5, 0}, {SOUNDS, 5, SOUNDS + 5, 0},
+            {SAID + 1, 3, SAID + 2, 231}, {SAID + 3, 99}, {SAID + 4, 1}, {SAID + 6, 1}, {SAID, 5}, {SAID, 5, SAID + 4, 1, SAID
+                    + 6, 1},
+            {SOUNDS + 3, 99}, {SOUNDS + 4, 0}, {SOUNDS + 5, 1}, {SOUNDS + 5, 9}, {SOUNDS + 6, 0}, {SOUNDS, 3, SOUNDS + 5, 0},
+                    {SOUNDS, 5, SOUNDS + 5, 0},
             {SOUNDS, 5, SOUNDS + 5, 0, W + 1, 1}, {SOUNDS, 3, SOUNDS + 5, 0, W + 1, 1},
             {HUSHED + 3, 99}, {HUSHED + 3, 0}, {HUSHED, 1}, {HUSHED, 0, HUSHED + 3, 0}, {HUSHED + 1, 3, HUSHED + 2, 231},
             {WAITS, 4}, {WAITS + 3, 0}, {WAITS + 3, 99}, {WAITS, 2, WAITS + 4, 0, WAITS + 5, 9, WAITS + 6, 1},
@@ -431,23 +443,31 @@ final class ActBounds {
             ThrownVoices x = several();
             int[] image = Doc.changed(x, pairs);
             Doc.as(x, pairs);
-            Doc.due("the image is as it was told: " + java.util.Arrays.toString(pairs), java.util.Arrays.equals(Check.image(x), image), true);
+            Doc.due("the image is as it was told: " + java.util.Arrays.toString(pairs), java.util.Arrays.equals(Check.image(x),
+                    image), true);
             Doc.due("nothing was refused", x.status(5), 0);
         }
     }
 
     private static void onRefused() {
         Doc.promise(35, "false, refused (5), all staying, if it is none such (MINUTES 999,");
-        int[][] bad = {{0, 3, 1, 232}, {0, 4}, {0, 255, 1, 255}, {2, 10}, {2, 255}, {3, 2}, {3, 255}, {4, 100}, {4, 255}, {W, 10}, {W + 1, 2}, {W + 2, 100},
-            {SAID, 6}, {SAID, 255}, {SAID + 1, 3, SAID + 2, 232}, {SAID + 1, 4}, {SAID + 3, 100}, {SAID + 4, 2}, {SAID + 4, 255}, {SAID + 5, 1}, {SAID + 6, 2},
+        int[][] bad = {{0, 3, 1, 232}, {0, 4}, {0, 255, 1, 255}, {2, 10}, {2, 255}, {3, 2}, {3, 255}, {4, 100}, {4, 255}, {W,
+                10}, {W + 1, 2}, {W + 2, 100},
+            {SAID, 6}, {SAID, 255}, {SAID + 1, 3, SAID + 2, 232}, {SAID + 1, 4}, {SAID + 3, 100}, {SAID + 4, 2}, {SAID + 4,
+                    255}, {SAID + 5, 1}, {SAID + 6, 2},
             {SAID, 5, SAID + 4, 2}, {SAID, 5, SAID + 4, 255}, {SAID, 5, SAID + 5, 1}, {SAID, 4}, {SAID, 1}, {SAID, 0},
-            {SOUNDS + 3, 100}, {SOUNDS + 4, 2}, {SOUNDS + 4, 255}, {SOUNDS + 5, 0}, {SOUNDS + 5, 10}, {SOUNDS + 5, 255}, {SOUNDS + 6, 2}, {W + 1, 1},
+            {SOUNDS + 3, 100}, {SOUNDS + 4, 2}, {SOUNDS + 4, 255}, {SOUNDS + 5, 0}, {SOUNDS + 5, 10}, {SOUNDS + 5, 255},
+                    {SOUNDS + 6, 2}, {W + 1, 1},
             {SOUNDS, 3}, {SOUNDS, 5}, {SOUNDS + 1, 3, SOUNDS + 2, 232},
-            {HUSHED + 3, 100}, {HUSHED + 4, 0}, {HUSHED + 4, 254}, {HUSHED + 5, 1}, {HUSHED + 6, 1}, {HUSHED, 3}, {HUSHED, 5}, {HUSHED, 2}, {HUSHED, 0},
-            {WAITS + 4, 0}, {WAITS + 4, 1}, {WAITS + 5, 1}, {WAITS + 6, 1}, {WAITS + 6, 2}, {WAITS + 3, 100}, {WAITS, 6}, {WAITS, 0},
-            {WAITS, 2, WAITS + 4, 1, WAITS + 5, 1}, {WAITS, 2, WAITS + 4, 0, WAITS + 5, 10}, {WAITS, 2, WAITS + 4, 0, WAITS + 5, 0}, {WAITS, 2, WAITS + 4, 2, WAITS + 5, 1},
+            {HUSHED + 3, 100}, {HUSHED + 4, 0}, {HUSHED + 4, 254}, {HUSHED + 5, 1}, {HUSHED + 6, 1}, {HUSHED, 3}, {HUSHED, 5},
+                    {HUSHED, 2}, {HUSHED, 0},
+            {WAITS + 4, 0}, {WAITS + 4, 1}, {WAITS + 5, 1}, {WAITS + 6, 1}, {WAITS + 6, 2}, {WAITS + 3, 100}, {WAITS, 6},
+                    {WAITS, 0},
+            {WAITS, 2, WAITS + 4, 1, WAITS + 5, 1}, {WAITS, 2, WAITS + 4, 0, WAITS + 5, 10}, {WAITS, 2, WAITS + 4, 0, WAITS
+                    + 5, 0}, {WAITS, 2, WAITS + 4, 2, WAITS + 5, 1},
             {3, 1, WAITS, 2, WAITS + 4, 0, WAITS + 5, 1},
-            {TO_COME + 3, 1}, {TO_COME + 3, 99}, {TO_COME + 1, 3, TO_COME + 2, 232}, {TO_COME + 4, 0}, {TO_COME + 5, 1}, {TO_COME + 6, 1},
+            {TO_COME + 3, 1}, {TO_COME + 3, 99}, {TO_COME + 1, 3, TO_COME + 2, 232}, {TO_COME + 4, 0}, {TO_COME + 5, 1},
+                    {TO_COME + 6, 1},
             {TO_COME, 2, TO_COME + 4, 0, TO_COME + 5, 5}};
         for (int[] pairs : bad) refusedImage("bytes " + java.util.Arrays.toString(pairs), Doc.changed(several(), pairs));
         int[] image = Check.image(several());
@@ -510,7 +530,8 @@ final class ActBounds {
     // ---- refusals
 
     private static void status() {
-        Doc.promise(36, "How many were refused: 0 feed(), end(); 1 town(); 2 minutes(), chance(); 3 strike(), heal(), train(), delay(); 4 undo(); 5 seed(), hear(), on().");
+        Doc.promise(36, "How many were refused: 0 feed(), end(); 1 town(); 2 minutes(), chance();"
+                + " 3 strike(), heal(), train(), delay(); 4 undo(); 5 seed(), hear(), on().");
         ThrownVoices x = Doc.good(V);
         long[] want = new long[6];
         for (int times = 0; times < 2; times++) {

@@ -33,11 +33,13 @@ final class AheadTerms {
         Doc.go(x, 939);
         Doc.row("60 from 939 on", Doc.of(x.later(2, 60, 0), x.busy(60), x.ends(2), x.ends(3)), 3, 0, 60, -1);
         x.minutes(1);
-        Doc.row("60 from 940 on", Doc.of(x.later(2, 60, 0), x.busy(60), x.later(2, 59, 0), x.busy(59), x.ends(2)), -1, -1, 3, 0, 59);
+        Doc.row("60 from 940 on", Doc.of(x.later(2, 60, 0), x.busy(60), x.later(2, 59, 0), x.busy(59), x.ends(2)), -1, -1, 3,
+                0, 59);
         Doc.go(x, 998);
         Doc.row("from 998 on", Doc.of(x.later(2, 1, 0), x.later(2, 2, 0), x.ends(2), x.ends(3)), 3, -1, 1, -1);
         x.minutes(1);
-        Doc.row("from 999 on", Doc.of(x.later(2, 0, 0), x.later(2, 1, 0), x.busy(0), x.busy(1), x.ends(2), x.ends(3)), 3, -1, 0, -1, 0, -1);
+        Doc.row("from 999 on", Doc.of(x.later(2, 0, 0), x.later(2, 1, 0), x.busy(0), x.busy(1), x.ends(2), x.ends(3)), 3, -1,
+                0, -1, 0, -1);
     }
 
     private static void match() {
@@ -68,7 +70,8 @@ final class AheadTerms {
     private static void likeMatches() {
         Doc.terms("III", "of the greatest sum, of like ones the first row (SAYING by SAYING none, then VOICES by numbers).");
         // p is 5 off v, 4 off w; q is 1 off v, 2 off w: together the second best of each is most.
-        ThrownVoices x = Doc.good("voice v pitch 5;voice w pitch 4;person p pitch 0 calm 9;person q pitch 6 calm 9;wants p at 0 long 1;wants q at 0 long 1;");
+        ThrownVoices x = Doc.good("voice v pitch 5;voice w pitch 4;person p pitch 0 calm 9;person q pitch 6 calm 9;"
+                + "wants p at 0 long 1;wants q at 0 long 1;");
         x.strike(0);
         x.strike(1);
         x.minutes(1);
@@ -87,15 +90,16 @@ final class AheadTerms {
         x.town();
         x.minutes(1);
         Doc.row("a smaller town then", Doc.of(x.match(0), x.match(-1)), -1, 0);
-        // Only the last SAYING is long enough for the greatest sum, only w has a sum above 0.
-        x = Doc.at(1, VW.replace("w pitch 5", "w pitch 4") + "person p pitch 5 calm 9;wants p at 0 long 1;wants p at 0 long 2;wants p at 0 long 2;"
-                + "picks if(minute<1,0,if(pitch>4,long,0));");
+        // Only v has a sum above 0: less for the first SAYING, the same for both others.
+        x = Doc.at(1, VW.replace("w pitch 5", "w pitch 4") + "person p pitch 5 calm 9;wants p at 0 long 1;wants p at 0 long 2;"
+                + "wants p at 0 long 2;picks if(minute<1,0,if(pitch>4,long,0));");
         Doc.row("the greatest sum first", Doc.of(x.match(-1), x.match(0), x.match(1), x.match(2)), 2, -1, -1, 0);
     }
 
     private static void choir() {
         Doc.terms("III", "A CHOIR are the fewest VOICES that are not STRUCK, so that, if the others begin nothing more, nothing is HUSHED in n MINUTES; of like ones the least bits.");
-        String town = "voice a pitch 1;voice b pitch 5;voice c pitch 5;person p pitch 5 calm 1;wants p at 0 long 2;wants p at 0 long 2;wants p at 9 long 1;";
+        String town = "voice a pitch 1;voice b pitch 5;voice c pitch 5;person p pitch 5 calm 1;wants p at 0 long 2;"
+                + "wants p at 0 long 2;wants p at 9 long 1;";
         ThrownVoices x = Doc.good(town);
         Doc.row("none, two, two", Doc.of(x.choir(1), x.choir(2), x.choir(30)), 0, 3, 3);
         x.strike(0);
@@ -105,7 +109,8 @@ final class AheadTerms {
         x = Doc.good(town.replace("wants p at 0 long 2;wants p at 0 long 2;", "wants p at 0 long 2;"));
         Doc.row("one; the least bits", Doc.of(x.choir(2), x.choir(30)), 1, 1);
         // One by c (4) is fewer than two by a and b (3).
-        x = Doc.good("voice a pitch 0;voice b pitch 0;voice c pitch 5;person p pitch 5 calm 0;wants p at 0 long 1;picks pitch-4;");
+        x = Doc.good("voice a pitch 0;voice b pitch 0;voice c pitch 5;person p pitch 5 calm 0;wants p at 0 long 1;"
+                + "picks pitch-4;");
         Doc.due("fewer ahead of least bits", x.choir(1), 4);
         // What SOUNDS by another goes on; that one begins nothing more.
         x = Doc.at(1, V + "person p pitch 5 calm 0;wants p at 0 long 2;wants p at 9 long 1;");
@@ -126,9 +131,11 @@ final class AheadTerms {
 
     private static void worst() {
         Doc.terms("III", "WORST is the VOICE, not STRUCK, which, STRUCK now, leaves most SAYINGS HUSHED or BROKEN behind n MINUTES (of all that are so then); of like ones the first.");
-        String town = "voice a pitch 1;voice b pitch 5;person p pitch 5 calm 0;wants p at 0 long 3;wants p at 2 long 1;picks pitch-1;";
+        String town = "voice a pitch 1;voice b pitch 5;person p pitch 5 calm 0;wants p at 0 long 3;wants p at 2 long 1;"
+                + "picks pitch-1;";
         ThrownVoices x = Doc.at(1, town);
-        Doc.row("b: one BROKEN, then one HUSHED", Doc.of(x.worst(1, 0), x.worst(1, 1), x.worst(2, 1), x.worst(30, 1)), 1, 1, 2, 2);
+        Doc.row("b: one BROKEN, then one HUSHED", Doc.of(x.worst(1, 0), x.worst(1, 1), x.worst(2, 1), x.worst(30, 1)), 1, 1, 2,
+                2);
         x.strike(1);
         Doc.row("of all that are so, a is left", Doc.of(x.worst(1, 0), x.worst(1, 1), x.worst(2, 1)), 0, 1, 2);
         x.strike(0);
@@ -186,10 +193,12 @@ final class AheadTerms {
 
     private static void odds() {
         Doc.terms("III", "ODDS of a SAYING are by how many of all rows of a number below 100, a VOICE, it is BROKEN behind the next MINUTE by the seed.");
-        String town = VW + "voice u pitch 0;person p pitch 5 calm 0;wants p at 0 long 9;wants p at 0 long 1;wants p at 0 long 9;wants p at 0 long 9;wants p at 1 long 9;wants p at 9 long 1;";
+        String town = VW + "voice u pitch 0;person p pitch 5 calm 0;wants p at 0 long 9;wants p at 0 long 1;"
+                + "wants p at 0 long 9;wants p at 0 long 9;wants p at 1 long 9;wants p at 9 long 1;";
         for (int stroke = 0; stroke < 101; stroke += stroke == 1 ? 98 : 1) {
             ThrownVoices x = Doc.at(1, town + "picks if(pitch=0,0,1);stroke " + stroke + ";");
-            Doc.row("stroke " + stroke, Doc.of(x.odds(-1), x.odds(0), x.odds(1), x.odds(2), x.odds(4), x.odds(5)), 300, stroke, 0, 0, 0, 0);
+            Doc.row("stroke " + stroke, Doc.of(x.odds(-1), x.odds(0), x.odds(1), x.odds(2), x.odds(4), x.odds(5)), 300, stroke,
+                    0, 0, 0, 0);
             x.strike(0);
             Doc.row("BROKEN already", Doc.of(x.odds(-1), x.odds(0)), 300, 300);
         }
@@ -206,7 +215,8 @@ final class AheadTerms {
     // ---- what was heard
 
     private static void heard() {
-        Doc.terms("III", "HEARD are rows of MINUTES AHEAD by number (0 .. 30; 0 is the next one), a SAYING, the VOICE that gave it, if it SOUNDS in that MINUTE"
+        Doc.terms("III", "HEARD are rows of MINUTES AHEAD by number (0 .. 30;"
+                + " 0 is the next one), a SAYING, the VOICE that gave it, if it SOUNDS in that MINUTE"
                 + " (ahead of its MINUTE being less), 255 if it does not:");
         // From pitch 6 on v serves p; the SAYING SOUNDS in the MINUTES 1 and 2 alone.
         String town = V + "voice w pitch 0;person p pitch 5 calm 9;wants p at 1 long 2;picks pitch-tone;";
@@ -254,9 +264,11 @@ final class AheadTerms {
             Doc.due("none", fits(x, 0, 0, 255, 1, 0, 0), 0);
         }
         // From pitch 6 on for p, from pitch 3 on for q: all rows must be so.
-        ThrownVoices x = Doc.good(V + "voice w pitch 0;person p pitch 5 calm 0;person q pitch 2 calm 0;wants p at 0 long 1;wants q at 1 long 1;picks pitch-tone;");
+        ThrownVoices x = Doc.good(V + "voice w pitch 0;person p pitch 5 calm 0;person q pitch 2 calm 0;wants p at 0 long 1;"
+                + "wants q at 1 long 1;picks pitch-tone;");
         Doc.due("not p, but q", fits(x, 0, 0, 255, 1, 1, 0), 8 + 16 + 32);
-        Doc.row("w up to 5, v being the first of like ones; nobody is trained", Doc.of(x.pitches(1), x.voice(0, 0), x.voice(1, 0)), 63, 5, 0);
+        Doc.row("w up to 5, v being the first of like ones; nobody is trained", Doc.of(x.pitches(1), x.voice(0, 0), x.voice(1,
+                0)), 63, 5, 0);
         Doc.due("q by w", fits(x, 1, 1, 1), 0);
         Doc.due("w above 5", x.pitches(1), 1023 - 63);
         x = Doc.at(1, V + P + "wants p at 0 long 9;");
@@ -280,7 +292,8 @@ final class AheadTerms {
         x = Doc.good(town.replace("wants p at 30 long 1;", "wants q at 5 long 1;wants q at 4 long 1;wants q at 4 long 1;"));
         Doc.row("the MINUTE ahead of the SAYING", told(x), 4, 1, 5);
         // By v, by w, or none: 10 pitches in three kinds.
-        x = Doc.good("voice v pitch 0;voice w pitch 4;person p pitch 5 calm 0;wants p at 0 long 1;picks if(minute>0,0,if(pitch=4,5,pitch));");
+        x = Doc.good("voice v pitch 0;voice w pitch 4;person p pitch 5 calm 0;wants p at 0 long 1;"
+                + "picks if(minute>0,0,if(pitch=4,5,pitch));");
         Doc.row("two kinds of VOICES", told(x), 0, 0, 6);
         x.strike(1);
         Doc.row("v or none", told(x), 0, 0, 9);
@@ -301,7 +314,8 @@ final class AheadTerms {
     // ---- images
 
     private static void image() {
-        Doc.terms("III", "AN IMAGE: MINUTE (two bytes, the higher first); for each VOICE its pitch, 1 if it is STRUCK, else 0, how many it has begun;"
+        Doc.terms("III", "AN IMAGE: MINUTE (two bytes, the higher first);"
+                + " for each VOICE its pitch, 1 if it is STRUCK, else 0, how many it has begun;"
                 + " for each SAYING what it is (0 .. 5), its MINUTE (two bytes), for how many it has waited, its VOICE (255: none; the last one stays with what"
                 + " is SAID or BROKEN), how many are left (0 of what does not SOUND), 1 if it is MIXED, else 0;");
         int[] minutes = {0, 1, 255, 256, 257, 511, 512, 767, 768, 998, 999};
@@ -312,7 +326,8 @@ final class AheadTerms {
             row("wants at " + minute, image, 0, 0, 0, minute / 256, minute % 256, 0, 255, 0, 0);
         }
         // v SAID the first, w gives the second; the third was HUSHED, the fourth WAITS, the last is TO COME; then w is STRUCK.
-        ThrownVoices x = Doc.at(2, VW.replace("w pitch 5", "w pitch 9") + "person p pitch 5 calm 1;person q pitch 0 calm 9;wants p at 0 long 2;"
+        ThrownVoices x = Doc.at(2, VW.replace("w pitch 5", "w pitch 9")
+                + "person p pitch 5 calm 1;person q pitch 0 calm 9;wants p at 0 long 2;"
                 + "wants p at 0 long 20;wants p at 0 long 1;wants q at 0 long 1;wants p at 300 long 1;mixes busy=2;");
         int[] start = {0, 2, 5, 0, 1, 9, 0, 1, 3, 0, 0, 0, 0, 0, 0};
         int[] rest = {4, 0, 0, 2, 255, 0, 0, 1, 0, 0, 2, 255, 0, 0, 0, 1, 44, 0, 255, 0, 0};
@@ -347,7 +362,8 @@ final class AheadTerms {
         for (int s = 0; s < 12; s++) {
             int at = 23 + 7 * s;
             boolean sounds = s < 7;
-            Doc.row("SAYING " + s, Doc.of(image[at], image[at + 3], image[at + 5], image[at + 6]), sounds ? 2 : 1, sounds ? 0 : 1, sounds ? 19 : 0, sounds ? 1 : 0);
+            Doc.row("SAYING " + s, Doc.of(image[at], image[at + 3], image[at + 5], image[at + 6]), sounds ? 2 : 1, sounds ? 0
+                    : 1, sounds ? 19 : 0, sounds ? 1 : 0);
         }
     }
 

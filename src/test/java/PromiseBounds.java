@@ -69,13 +69,18 @@ final class PromiseBounds {
         ThrownVoices x = new ThrownVoices();
         for (int what = 0; what < 15; what++) Doc.due("has(" + what + ")", x.has(what), 0);
         Doc.due("has(15)", x.has(15), 1);
-        Doc.row("nobody", Doc.of(x.voice(0, 0), x.person(0, 0), x.saying(0, 0), x.letter(0, 0, 0), x.letter(1, 0, 0)), -1, -1, -1, -1, -1);
-        Doc.row("sums", Doc.of(x.picks(0, 0), x.match(-1), x.match(0), x.odds(-1), x.needed(0)), ThrownVoices.NOTHING, 0, -1, -1, -1);
-        Doc.row("ahead", Doc.of(x.later(0, 0, 0), x.ends(0), x.busy(0), x.busy(60), x.choir(1), x.worst(1, 0), x.worst(1, 1), x.tune(0, 1, 0)),
+        Doc.row("nobody", Doc.of(x.voice(0, 0), x.person(0, 0), x.saying(0, 0), x.letter(0, 0, 0), x.letter(1, 0, 0)), -1, -1,
+                -1, -1, -1);
+        Doc.row("sums", Doc.of(x.picks(0, 0), x.match(-1), x.match(0), x.odds(-1), x.needed(0)), ThrownVoices.NOTHING, 0, -1,
+                -1, -1);
+        Doc.row("ahead", Doc.of(x.later(0, 0, 0), x.ends(0), x.busy(0), x.busy(60), x.choir(1), x.worst(1, 0), x.worst(1, 1),
+                x.tune(0, 1, 0)),
                 -1, -1, 0, 0, 0, -1, -1, -1);
-        Doc.row("told", Doc.of(x.pitches(0), x.tells(0, 0), x.fault(0), x.fault(1), x.octet(0), x.kept(0, 0)), -1, -1, 0, -1, -1, -1);
+        Doc.row("told", Doc.of(x.pitches(0), x.tells(0, 0), x.fault(0), x.fault(1), x.octet(0), x.kept(0, 0)), -1, -1, 0, -1,
+                -1, -1);
         for (int what = 0; what < 6; what++) Doc.due("status(" + what + ")", x.status(what), 0);
-        Doc.row("acts", Doc.of(x.strike(0) ? 1 : 0, x.heal(0) ? 1 : 0, x.train(0, 1) ? 1 : 0, x.delay(0, 1) ? 1 : 0, x.undo() ? 1 : 0), 0, 0, 0, 0, 0);
+        Doc.row("acts", Doc.of(x.strike(0) ? 1 : 0, x.heal(0) ? 1 : 0, x.train(0, 1) ? 1 : 0, x.delay(0, 1) ? 1 : 0, x.undo()
+                ? 1 : 0), 0, 0, 0, 0, 0);
         Doc.due("end(0) of an empty tape", x.end(0), true);
         Doc.due("end(1) of an empty tape", x.end(1), false);
         Doc.due("town() of an empty tape", x.town(), 0);
@@ -144,7 +149,8 @@ final class PromiseBounds {
             x = new ThrownVoices();
             Check.put(x, two);
             Doc.due("end(" + n + ")", x.end(n), false);
-            Doc.row("status", Doc.of(x.status(0), x.status(1), x.status(2), x.status(3), x.status(4), x.status(5)), 1, 0, 0, 0, 0, 0);
+            Doc.row("status", Doc.of(x.status(0), x.status(1), x.status(2), x.status(3), x.status(4), x.status(5)), 1, 0, 0, 0,
+                    0, 0);
             Doc.due("the tape stays behind end(" + n + ")", x.town(), 2);
         }
         Doc.due("end(1) when the tape went", x.end(1), false);
@@ -177,10 +183,12 @@ final class PromiseBounds {
 
     private static void townThatStays() {
         Doc.promise(4, "NONE, refused (1), with a FAULT (all stays).");
-        String[] faults = {"$", "voice a pitch 1;voice a pitch 1;", "wants p at 0 long 1;", "stroke 101;", "picks ((((((((1))))))));", "picks 1;picks 1;",
+        String[] faults = {"$", "voice a pitch 1;voice a pitch 1;", "wants p at 0 long 1;", "stroke 101;",
+                "picks ((((((((1))))))));", "picks 1;picks 1;",
             "voice a pitch 1;person q pitch 1 calm 1;picks 9;mixes all;hush all;stroke 100;wants q at 0 long 1"};
         Supplier<ThrownVoices> make = () -> {
-            ThrownVoices x = Doc.at(2, VW + P + "wants p at 0 long 1;wants p at 1 long 3;wants p at 1 long 3;wants p at 9 long 3;stroke 50;picks 9-load;");
+            ThrownVoices x = Doc.at(2, VW + P + "wants p at 0 long 1;wants p at 1 long 3;wants p at 1 long 3;"
+                    + "wants p at 9 long 3;stroke 50;picks 9-load;");
             x.strike(1);
             Check.put(x, 0, 0, 255);
             x.hear();
@@ -194,7 +202,8 @@ final class PromiseBounds {
             ThrownVoices x = make.get();
             Check.put(x, Check.bytes(text));
             x.town();
-            Doc.row("letters, lengths, rules and ACTS stay", Doc.of(x.letter(0, 1, 0), x.letter(1, 0, 0), x.saying(2, 2), x.picks(2, 0), x.has(14), x.odds(2)),
+            Doc.row("letters, lengths, rules and ACTS stay", Doc.of(x.letter(0, 1, 0), x.letter(1, 0, 0), x.saying(2, 2),
+                    x.picks(2, 0), x.has(14), x.odds(2)),
                     23, 16, 3, 7, 2, 50);
             Doc.due("undo() still can", x.undo(), true);
             Doc.row("it was undone", Doc.of(x.voice(1, 1), x.has(8), x.saying(1, 5)), 0, 2, 1);
@@ -203,7 +212,8 @@ final class PromiseBounds {
 
     private static void townAtFirst() {
         Doc.promise(4, "Without one all is as at first, nothing is KEPT or HEARD, no ACT can be undone; the seed stays.");
-        String town = VW + "person p pitch 5 calm 0;wants p at 0 long 1;wants p at 1 long 3;wants p at 1 long 3;wants p at 1 long 3;wants p at 9 long 3;stroke 50;mixes all;";
+        String town = VW + "person p pitch 5 calm 0;wants p at 0 long 1;wants p at 1 long 3;wants p at 1 long 3;"
+                + "wants p at 1 long 3;wants p at 9 long 3;stroke 50;mixes all;";
         String first = Doc.stand(Doc.good(town));
         ThrownVoices x = Doc.at(2, town);
         x.strike(1);
@@ -211,7 +221,8 @@ final class PromiseBounds {
         x.delay(4, 999);
         Check.put(x, 0, 0, 255);
         x.hear();
-        Doc.row("it went on", Doc.of(x.has(3), x.has(9), x.has(10), x.has(11), x.has(12), x.has(13), x.has(14)), 2, 1, 1, 1, 3, 1, 4);
+        Doc.row("it went on", Doc.of(x.has(3), x.has(9), x.has(10), x.has(11), x.has(12), x.has(13), x.has(14)), 2, 1, 1, 1, 3,
+                1, 4);
         Check.put(x, Check.bytes(town));
         Doc.due("town()", x.town(), 10);
         Doc.due("all is as at first", Doc.stand(x).equals(first), true);
@@ -226,7 +237,8 @@ final class PromiseBounds {
 
     /** What one text left behind, refused or not, is nothing to the next one. */
     private static void townsInARow() {
-        String[] faults = {"abcdefg", "12345", "picks (((((((", "mixes not not not [[[[1", "voice v pitch 1;picks 1;mixes all;hush all;stroke 100;x",
+        String[] faults = {"abcdefg", "12345", "picks (((((((", "mixes not not not [[[[1",
+                "voice v pitch 1;picks 1;mixes all;hush all;stroke 100;x",
             V + P + "wants p at 1 long 20;".repeat(12) + "x", "stroke 1;".repeat(81), "voice v"};
         StringBuilder longRule = new StringBuilder(V + P + "wants p at 0 long 1;picks 2");
         while (longRule.length() < 1590) longRule.append("+1");
@@ -239,9 +251,11 @@ final class PromiseBounds {
             Doc.due("its SUM", x.picks(0, 0), 2 + longRule.chars().filter(c -> c == '+').count());
             Check.put(x, Check.bytes(text));
             Doc.due("town() of " + text, x.town(), -1);
-            Check.put(x, Check.bytes("voice w pitch 5;" + P + "wants p at 0 long 2;picks (((((((pitch)))))));hush not[not[not[not 1=1]]];"));
+            Check.put(x, Check.bytes("voice w pitch 5;" + P + "wants p at 0 long 2;picks (((((((pitch)))))));"
+                    + "hush not[not[not[not 1=1]]];"));
             Doc.due("town() seven deep behind " + text, x.town(), 5);
-            Doc.row("it is as it was told", Doc.of(x.has(0), x.has(2), x.picks(0, 0), x.later(0, 1, 2), x.ends(0)), 1, 1, 5, 0, 2);
+            Doc.row("it is as it was told", Doc.of(x.has(0), x.has(2), x.picks(0, 0), x.later(0, 1, 2), x.ends(0)), 1, 1, 5, 0,
+                    2);
             x.minutes(1);
             Doc.due("odds() without stroke", x.odds(0), 0);
         }
@@ -251,7 +265,8 @@ final class PromiseBounds {
         Doc.promise(5, "Of the latest town(): its FAULT (what 0; 0 without, and ahead of any), its place (1; NONE without).");
         ThrownVoices x = new ThrownVoices();
         Doc.row("ahead of any", Doc.of(x.fault(0), x.fault(1)), 0, -1);
-        String[] texts = {"$", V + "voice v pitch 1;", "wants p at 0 long 1;", "stroke 101;", "picks ((((((((1))))))));", "picks 1;picks 1;"};
+        String[] texts = {"$", V + "voice v pitch 1;", "wants p at 0 long 1;", "stroke 101;", "picks ((((((((1))))))));",
+                "picks 1;picks 1;"};
         int[] places = {0, 22, 6, 7, 13, 8};
         for (int kind = 1; kind < 7; kind++) {
             Check.put(x, Check.bytes(texts[kind - 1]));
@@ -274,9 +289,11 @@ final class PromiseBounds {
     private static void has() {
         Doc.promise(6, "How many there are: 0 VOICES, 1 PERSONS, 2 SAYINGS, 3 MINUTE, 4 VOICES that are STRUCK, 5 busy, 6 SAYINGS TO COME, 7 that WAIT,"
                 + " 8 that SOUND, 9 SAID, 10 HUSHED, 11 BROKEN, 12 told as KEPT, 13 rows HEARD, 14 ACTS that can be undone, 15 the seed.");
-        ThrownVoices x = Doc.good(VW + "voice u pitch 5;person p pitch 5 calm 0;person q pitch 5 calm 9;person r pitch 9 calm 9;person s pitch 0 calm 0;"
+        ThrownVoices x = Doc.good(VW + "voice u pitch 5;person p pitch 5 calm 0;person q pitch 5 calm 9;"
+                + "person r pitch 9 calm 9;person s pitch 0 calm 0;"
                 + "wants p at 0 long 9;wants p at 0 long 9;wants p at 0 long 1;wants p at 0 long 1;"
-                + "wants q at 1 long 9;wants q at 1 long 9;wants q at 1 long 9;wants q at 500 long 9;wants q at 500 long 9;wants q at 500 long 9;");
+                + "wants q at 1 long 9;wants q at 1 long 9;wants q at 1 long 9;wants q at 500 long 9;wants q at 500 long 9;"
+                + "wants q at 500 long 9;");
         x.seed(77);
         x.minutes(1);
         x.strike(0);
@@ -293,7 +310,8 @@ final class PromiseBounds {
 
     private static void letter() {
         Doc.promise(7, "Letter k (0 .. 5) of the NAME of a VOICE (kind 0), a PERSON (1): 1 .. 26; 0 behind it;");
-        ThrownVoices x = Doc.good("voice abyzaz pitch 1;voice z pitch 1;person azbyca pitch 1 calm 1;person yy pitch 1 calm 1;person qwerty pitch 1 calm 1;");
+        ThrownVoices x = Doc.good("voice abyzaz pitch 1;voice z pitch 1;person azbyca pitch 1 calm 1;person yy pitch 1 calm 1;"
+                + "person qwerty pitch 1 calm 1;");
         String[] names = {"abyzaz", "z", "azbyca", "yy", "qwerty"};
         for (int n = 0; n < 5; n++) {
             for (int k = 0; k < 6; k++) {
@@ -302,14 +320,16 @@ final class PromiseBounds {
             }
         }
         Doc.promise(7, "NONE when there is none such.");
-        int[][] none = {{0, 0, -1}, {0, 0, 6}, {1, 0, -1}, {1, 0, 6}, {0, -1, 0}, {0, 2, 0}, {1, -1, 0}, {1, 3, 0}, {-1, 0, 0}, {2, 0, 0},
+        int[][] none = {{0, 0, -1}, {0, 0, 6}, {1, 0, -1}, {1, 0, 6}, {0, -1, 0}, {0, 2, 0}, {1, -1, 0}, {1, 3, 0}, {-1, 0, 0},
+                {2, 0, 0},
             {0, 0, MIN}, {0, 0, MAX}, {0, MIN, 0}, {0, MAX, 0}, {1, MAX, 0}, {MIN, 0, 0}, {MAX, 0, 0}};
         for (int[] one : none) Doc.due("letter(" + one[0] + ", " + one[1] + ", " + one[2] + ")", x.letter(one[0], one[1], one[2]), -1);
     }
 
     private static void voice() {
         Doc.promise(8, "Of a VOICE: 0 pitch, 1 whether STRUCK, 2 how many it has begun, 3 the SAYING that SOUNDS by it (NONE).");
-        ThrownVoices x = Doc.at(2, "voice v pitch 0;voice w pitch 9;voice u pitch 5;person p pitch 9 calm 9;person q pitch 0 calm 9;"
+        ThrownVoices x = Doc.at(2, "voice v pitch 0;voice w pitch 9;voice u pitch 5;person p pitch 9 calm 9;"
+                + "person q pitch 0 calm 9;"
                 + "wants p at 0 long 1;wants p at 1 long 9;wants q at 1 long 9;");
         x.strike(0);
         x.train(2, 4);
@@ -320,7 +340,8 @@ final class PromiseBounds {
             Doc.due("voice(" + other + ", 0)", x.voice(other, 0), -1);
             Doc.due("voice(0, " + other + ")", x.voice(0, other), -1);
         }
-        Doc.row("the first beyond", Doc.of(x.voice(3, 0), x.voice(3, 1), x.voice(3, 2), x.voice(3, 3), x.voice(0, 4), x.voice(2, 4)), -1, -1, -1, -1, -1, -1);
+        Doc.row("the first beyond", Doc.of(x.voice(3, 0), x.voice(3, 1), x.voice(3, 2), x.voice(3, 3), x.voice(0, 4),
+                x.voice(2, 4)), -1, -1, -1, -1, -1, -1);
     }
 
     private static void person() {
@@ -337,13 +358,15 @@ final class PromiseBounds {
             Doc.due("person(" + other + ", 0)", x.person(other, 0), -1);
             Doc.due("person(0, " + other + ")", x.person(0, other), -1);
         }
-        Doc.row("the first beyond", Doc.of(x.person(3, 0), x.person(3, 1), x.person(3, 2), x.person(3, 3), x.person(0, 4), x.person(2, 4)), -1, -1, -1, -1, -1, -1);
+        Doc.row("the first beyond", Doc.of(x.person(3, 0), x.person(3, 1), x.person(3, 2), x.person(3, 3), x.person(0, 4),
+                x.person(2, 4)), -1, -1, -1, -1, -1, -1);
     }
 
     private static void saying() {
         Doc.promise(10, "Of a SAYING: 0 its PERSON, 1 its MINUTE, 2 how long, 3 what it is (0 .. 5), 4 how long it has waited, 5 its VOICE (NONE),"
                 + " 6 how many MINUTES are left, 7 whether MIXED.");
-        ThrownVoices x = Doc.at(3, V + P + "person q pitch 4 calm 9;wants q at 0 long 1;wants p at 0 long 20;wants p at 999 long 3;mixes waits=1;");
+        ThrownVoices x = Doc.at(3, V + P + "person q pitch 4 calm 9;wants q at 0 long 1;wants p at 0 long 20;"
+                + "wants p at 999 long 3;mixes waits=1;");
         long[][] want = {{1, 0, 1, 3, 0, 0, 0, 0}, {0, 0, 20, 2, 1, 0, 18, 1}, {0, 999, 3, 0, 0, -1, 0, 0}};
         for (int s = 0; s < 3; s++) {
             for (int what = 0; what < 8; what++) Doc.due("saying(" + s + ", " + what + ")", x.saying(s, what), want[s][what]);
@@ -360,12 +383,16 @@ final class PromiseBounds {
     private static void picks() {
         Doc.promise(11, "The SUM of picks of a SAYING and a VOICE (whatever they are) now;");
         // 0 is SAID, 1 SOUNDS by v, 2 is HUSHED, 3 is TO COME, 4 WAITS; w is STRUCK.
-        ThrownVoices x = Doc.at(2, VW.replace("w pitch 5", "w pitch 2") + "person p pitch 5 calm 0;person q pitch 6 calm 9;wants p at 0 long 1;wants p at 1 long 9;wants p at 0 long 9;"
+        ThrownVoices x = Doc.at(2, VW.replace("w pitch 5", "w pitch 2")
+                + "person p pitch 5 calm 0;person q pitch 6 calm 9;wants p at 0 long 1;wants p at 1 long 9;wants p at 0 long 9;"
                 + "wants p at 900 long 4;wants q at 1 long 5;picks 9*(pitch-4)+long-waits-tone;");
         x.strike(1);
-        Doc.row("what they are", Doc.of(x.saying(0, 3), x.saying(1, 3), x.saying(2, 3), x.saying(3, 3), x.saying(4, 3), x.voice(0, 3)), 3, 2, 4, 0, 1, 1);
-        Doc.row("by the busy v", Doc.of(x.picks(0, 0), x.picks(1, 0), x.picks(2, 0), x.picks(3, 0), x.picks(4, 0)), 5, 13, 12, 8, 7);
-        Doc.row("by the STRUCK w", Doc.of(x.picks(0, 1), x.picks(1, 1), x.picks(2, 1), x.picks(3, 1), x.picks(4, 1)), -22, -14, -15, -19, -20);
+        Doc.row("what they are", Doc.of(x.saying(0, 3), x.saying(1, 3), x.saying(2, 3), x.saying(3, 3), x.saying(4, 3),
+                x.voice(0, 3)), 3, 2, 4, 0, 1, 1);
+        Doc.row("by the busy v", Doc.of(x.picks(0, 0), x.picks(1, 0), x.picks(2, 0), x.picks(3, 0), x.picks(4, 0)), 5, 13, 12,
+                8, 7);
+        Doc.row("by the STRUCK w", Doc.of(x.picks(0, 1), x.picks(1, 1), x.picks(2, 1), x.picks(3, 1), x.picks(4, 1)), -22, -14,
+                -15, -19, -20);
         Doc.due("the greatest", Doc.good(V + P + "wants p at 0 long 1;picks 9999*9999;").picks(0, 0), 1000000);
         Doc.due("the least", Doc.good(V + P + "wants p at 0 long 1;picks (0-9999)*9999;").picks(0, 0), -1000000);
         Doc.due("-1 is a sum", Doc.good(V + P + "wants p at 0 long 1;picks 0-1;").picks(0, 0), -1);
@@ -391,14 +418,16 @@ final class PromiseBounds {
             Doc.due("later(0, " + other + ", 0)", x.later(0, other, 0), -1);
             Doc.due("later(0, 1, " + other + ")", x.later(0, 1, other), -1);
         }
-        Doc.row("the first beyond", Doc.of(x.later(2, 1, 0), x.later(0, 61, 0), x.later(0, 60, 3), x.later(0, 0, 3), x.later(0, 0, -1)), -1, -1, -1, -1, -1);
+        Doc.row("the first beyond", Doc.of(x.later(2, 1, 0), x.later(0, 61, 0), x.later(0, 60, 3), x.later(0, 0, 3), x.later(0,
+                0, -1)), -1, -1, -1, -1, -1);
         Doc.go(x, 969);
         Doc.row("from 969 on", Doc.of(x.later(0, 30, 0), x.later(0, 31, 0)), 3, -1);
     }
 
     private static void ends() {
         Doc.promise(13, "Behind how many MINUTES AHEAD (0: now; 60 at most) a SAYING is SAID, HUSHED or BROKEN;");
-        ThrownVoices x = Doc.good(V + "person p pitch 5 calm 0;person q pitch 5 calm 99;wants p at 0 long 2;wants p at 1 long 1;wants p at 40 long 20;wants q at 41 long 1;");
+        ThrownVoices x = Doc.good(V + "person p pitch 5 calm 0;person q pitch 5 calm 99;wants p at 0 long 2;"
+                + "wants p at 1 long 1;wants p at 40 long 20;wants q at 41 long 1;");
         Doc.row("SAID, HUSHED, 60, 61", Doc.of(x.ends(0), x.ends(1), x.ends(2), x.ends(3)), 2, 2, 60, -1);
         x.minutes(1);
         Doc.row("a MINUTE less", Doc.of(x.ends(0), x.ends(1), x.ends(2), x.ends(3)), 1, 1, 59, 60);
@@ -417,7 +446,8 @@ final class PromiseBounds {
 
     private static void busy() {
         Doc.promise(14, "How many VOICES are busy behind n MINUTES AHEAD (0 .. 60);");
-        ThrownVoices x = Doc.good(VW + P + "wants p at 0 long 3;wants p at 1 long 1;wants p at 1 long 2;wants p at 58 long 9;wants p at 59 long 9;");
+        ThrownVoices x = Doc.good(VW + P + "wants p at 0 long 3;wants p at 1 long 1;wants p at 1 long 2;wants p at 58 long 9;"
+                + "wants p at 59 long 9;");
         int[][] want = {{0, 0}, {1, 1}, {2, 1}, {3, 1}, {4, 0}, {58, 0}, {59, 1}, {60, 2}};
         for (int[] one : want) Doc.due("busy(" + one[0] + ")", x.busy(one[0]), one[1]);
         x.minutes(1);
@@ -437,8 +467,10 @@ final class PromiseBounds {
 
     private static void match() {
         Doc.promise(15, "A MATCH: the sum (saying NONE), the VOICE of a SAYING (NONE; of one that does not WAIT, too).");
-        ThrownVoices x = Doc.at(1, VW + P + "wants p at 0 long 9;wants p at 0 long 1;wants p at 0 long 1;wants p at 9 long 1;picks if(minute=0,1-load,5);");
-        Doc.row("one SOUNDS, one is SAID, one WAITS, one is TO COME", Doc.of(x.match(-1), x.match(0), x.match(1), x.match(2), x.match(3)), 5, -1, -1, 1, -1);
+        ThrownVoices x = Doc.at(1, VW + P + "wants p at 0 long 9;wants p at 0 long 1;wants p at 0 long 1;wants p at 9 long 1;"
+                + "picks if(minute=0,1-load,5);");
+        Doc.row("one SOUNDS, one is SAID, one WAITS, one is TO COME", Doc.of(x.match(-1), x.match(0), x.match(1), x.match(2),
+                x.match(3)), 5, -1, -1, 1, -1);
         x.strike(1);
         Doc.row("none for it", Doc.of(x.match(-1), x.match(2)), 0, -1);
         x.strike(0);
@@ -450,7 +482,8 @@ final class PromiseBounds {
 
     private static void choir() {
         Doc.promise(16, "A CHOIR, n MINUTES (1 .. 30), as bits;");
-        ThrownVoices x = Doc.good(VW + "person p pitch 5 calm 0;wants p at 0 long 1;wants p at 29 long 1;wants p at 29 long 1;wants p at 30 long 1;wants p at 30 long 1;wants p at 30 long 1;");
+        ThrownVoices x = Doc.good(VW + "person p pitch 5 calm 0;wants p at 0 long 1;wants p at 29 long 1;wants p at 29 long 1;"
+                + "wants p at 30 long 1;wants p at 30 long 1;wants p at 30 long 1;");
         Doc.row("1, 29, 30", Doc.of(x.choir(1), x.choir(29), x.choir(30)), 1, 1, 3);
         Doc.due("no VOICES, nothing HUSHED", Doc.good("").choir(30), 0);
         Doc.promise(16, "NONE when no set of VOICES is enough, or n can't be.");
@@ -469,10 +502,13 @@ final class PromiseBounds {
 
     private static void worst() {
         Doc.promise(17, "WORST, n MINUTES (1 .. 30): the VOICE (what 0), how many SAYINGS (1).");
-        ThrownVoices x = Doc.at(1, "voice v pitch 4;voice w pitch 5;person p pitch 5 calm 0;wants p at 0 long 9;wants p at 30 long 1;wants p at 30 long 1;");
-        Doc.row("1, 29, 30", Doc.of(x.worst(1, 0), x.worst(1, 1), x.worst(29, 0), x.worst(29, 1), x.worst(30, 0), x.worst(30, 1)), 1, 1, 1, 1, 1, 2);
+        ThrownVoices x = Doc.at(1, "voice v pitch 4;voice w pitch 5;person p pitch 5 calm 0;wants p at 0 long 9;"
+                + "wants p at 30 long 1;wants p at 30 long 1;");
+        Doc.row("1, 29, 30", Doc.of(x.worst(1, 0), x.worst(1, 1), x.worst(29, 0), x.worst(29, 1), x.worst(30, 0), x.worst(30,
+                1)), 1, 1, 1, 1, 1, 2);
         Doc.promise(17, "NONE without one, when n can't be, or for others.");
-        Doc.row("the first beyond", Doc.of(x.worst(0, 0), x.worst(0, 1), x.worst(31, 0), x.worst(31, 1), x.worst(1, 2), x.worst(1, -1)), -1, -1, -1, -1, -1, -1);
+        Doc.row("the first beyond", Doc.of(x.worst(0, 0), x.worst(0, 1), x.worst(31, 0), x.worst(31, 1), x.worst(1, 2),
+                x.worst(1, -1)), -1, -1, -1, -1, -1, -1);
         for (int other : OTHERS) {
             Doc.due("worst(" + other + ", 0)", x.worst(other, 0), -1);
             Doc.due("worst(1, " + other + ")", x.worst(1, other), -1);
@@ -490,11 +526,14 @@ final class PromiseBounds {
 
     private static void tune() {
         Doc.promise(18, "To TUNE a VOICE, n MINUTES (1 .. 30): the pitch (what 0), how many are SAID then (1).");
-        ThrownVoices x = Doc.good("voice v pitch 4;voice w pitch 0;person p pitch 5 calm 0;wants p at 0 long 1;wants p at 29 long 1;wants p at 30 long 1;picks if(minute<1,pitch-3,if(minute<30,pitch-6,pitch-8));");
-        Doc.row("1, 29, 30", Doc.of(x.tune(0, 1, 0), x.tune(0, 1, 1), x.tune(0, 29, 0), x.tune(0, 30, 0), x.tune(0, 30, 1)), 4, 1, 4, 7, 2);
+        ThrownVoices x = Doc.good("voice v pitch 4;voice w pitch 0;person p pitch 5 calm 0;wants p at 0 long 1;"
+                + "wants p at 29 long 1;wants p at 30 long 1;picks if(minute<1,pitch-3,if(minute<30,pitch-6,pitch-8));");
+        Doc.row("1, 29, 30", Doc.of(x.tune(0, 1, 0), x.tune(0, 1, 1), x.tune(0, 29, 0), x.tune(0, 30, 0), x.tune(0, 30, 1)), 4,
+                1, 4, 7, 2);
         Doc.row("another VOICE", Doc.of(x.tune(1, 30, 0), x.tune(1, 30, 1)), 7, 2);
         Doc.promise(18, "NONE when there is none such, n can't be, or for others.");
-        Doc.row("the first beyond", Doc.of(x.tune(2, 1, 0), x.tune(0, 0, 0), x.tune(0, 31, 0), x.tune(0, 31, 1), x.tune(0, 1, 2), x.tune(0, 1, -1)), -1, -1, -1, -1, -1, -1);
+        Doc.row("the first beyond", Doc.of(x.tune(2, 1, 0), x.tune(0, 0, 0), x.tune(0, 31, 0), x.tune(0, 31, 1), x.tune(0, 1,
+                2), x.tune(0, 1, -1)), -1, -1, -1, -1, -1, -1);
         for (int other : OTHERS) {
             Doc.due("tune(" + other + ", 1, 0)", x.tune(other, 1, 0), -1);
             Doc.due("tune(0, " + other + ", 0)", x.tune(0, other, 0), -1);
@@ -571,7 +610,8 @@ final class PromiseBounds {
             x.hear();
             return x;
         };
-        int[][] bad = {{}, {0}, {0, 0}, {0, 0, 0, 0}, {0, 0, 0, 0, 0}, new int[17 * 3], new int[47], new int[49], {31, 0, 0}, {255, 0, 0}, {0, 3, 0}, {0, 255, 0},
+        int[][] bad = {{}, {0}, {0, 0}, {0, 0, 0, 0}, {0, 0, 0, 0, 0}, new int[17 * 3], new int[47], new int[49], {31, 0, 0},
+                {255, 0, 0}, {0, 3, 0}, {0, 255, 0},
             {0, 0, 2}, {0, 0, 254}, {0, 0, 128}, {128, 0, 0}, {0, 0, 0, 31, 0, 0}, {0, 0, 0, 0, 3, 0}, {0, 0, 0, 0, 0, 2}};
         for (int[] rows : bad) {
             Doc.refused(5, "hear() of " + java.util.Arrays.toString(rows), make, x -> {
@@ -592,8 +632,10 @@ final class PromiseBounds {
     }
 
     private static void pitches() {
-        Doc.promise(22, "PITCHES of a VOICE by HEARD (of the latest hear() of this TOWN that was not refused; all, if there was none; a row of a MINUTE beyond 999 no pitch meets), as bits.");
-        String town = V + "person p pitch 3 calm 9;person q pitch 5 calm 9;wants p at 0 long 1;wants q at 1 long 1;picks pitch-tone;";
+        Doc.promise(22, "PITCHES of a VOICE by HEARD (of the latest hear() of this TOWN that was not refused;"
+                + " all, if there was none; a row of a MINUTE beyond 999 no pitch meets), as bits.");
+        String town = V + "person p pitch 3 calm 9;person q pitch 5 calm 9;wants p at 0 long 1;wants q at 1 long 1;"
+                + "picks pitch-tone;";
         ThrownVoices x = Doc.good(town);
         Doc.due("there was none", x.pitches(0), 1023);
         Check.put(x, 0, 0, 0);

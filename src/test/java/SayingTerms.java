@@ -104,7 +104,8 @@ final class SayingTerms {
 
     private static void byWhom() {
         Doc.terms("II", "THEN SAYING by SAYING that WAITS: of the VOICES neither STRUCK nor busy the one by which the SUM of picks");
-        String town = "voice v pitch 1;voice w pitch 2;voice u pitch 2;" + P + "wants p at 0 long 2;wants p at 0 long 3;wants p at 0 long 4;";
+        String town = "voice v pitch 1;voice w pitch 2;voice u pitch 2;" + P
+                + "wants p at 0 long 2;wants p at 0 long 3;wants p at 0 long 4;";
         ThrownVoices x = Doc.at(1, town + "picks pitch;");
         Doc.row("each the best that is left", Doc.of(x.saying(0, 5), x.saying(1, 5), x.saying(2, 5)), 1, 2, 0);
         x = Doc.good(town + "picks pitch;");
@@ -122,10 +123,12 @@ final class SayingTerms {
         Doc.due("a sum below 0", giver(V + P + "wants p at 0 long 2;picks 0-1;"), -1);
         Doc.due("like ones", giver(VW + P + "wants p at 0 long 2;picks 3;"), 0);
         Doc.due("the second is more", giver("voice v pitch 3;voice w pitch 4;" + P + "wants p at 0 long 2;picks pitch;"), 1);
-        Doc.due("the second alone is above 0", giver("voice v pitch 3;voice w pitch 4;" + P + "wants p at 0 long 2;picks pitch-3;"), 1);
+        Doc.due("the second alone is above 0", giver("voice v pitch 3;voice w pitch 4;" + P
+                + "wants p at 0 long 2;picks pitch-3;"), 1);
         Doc.due("the last of seven", giver("voice a pitch 0;voice b pitch 1;voice c pitch 2;voice d pitch 3;voice e pitch 4;"
                 + "voice f pitch 5;voice g pitch 6;" + P + "wants p at 0 long 2;picks pitch;"), 6);
-        Doc.due("the largest sum", giver("voice v pitch 3;voice w pitch 4;" + P + "wants p at 0 long 2;picks pitch*9999*9999;"), 0);
+        Doc.due("the largest sum", giver("voice v pitch 3;voice w pitch 4;" + P
+                + "wants p at 0 long 2;picks pitch*9999*9999;"), 0);
     }
 
     private static void withoutPicks() {
@@ -287,7 +290,8 @@ final class SayingTerms {
 
     private static void bySeed() {
         Doc.terms("II", "BY THE SEED a MINUTE begins with a DRAW of 100: below stroke, if there are VOICES, a DRAW of these: that one is STRUCK, if it is not.");
-        int[][] cases = {{0, 0, 0}, {0, 1, 1}, {1, 1, 0}, {49, 50, 1}, {50, 50, 0}, {98, 99, 1}, {99, 99, 0}, {99, 100, 1}, {0, 100, 1}};
+        int[][] cases = {{0, 0, 0}, {0, 1, 1}, {1, 1, 0}, {49, 50, 1}, {50, 50, 0}, {98, 99, 1}, {99, 99, 0}, {99, 100, 1}, {0,
+                100, 1}};
         for (int[] one : cases) {
             for (int voice = 0; voice < 2; voice++) {
                 int seed = seedFor(one[0], 2, voice);
@@ -319,7 +323,8 @@ final class SayingTerms {
     private static void kept() {
         Doc.terms("II", "KEPT is each SAYING that ends: MINUTE, SAYING, as what (3, 4, 5), in the order in which they end (by acts, too; the last 40 are told).");
         // 0 and 1 SOUND; 2 and 3 are HUSHED in MINUTE 0; 1 is BROKEN in MINUTE 1; in that 5 is HUSHED, then 0 and 4 are SAID.
-        ThrownVoices x = Doc.good(VW + "person p pitch 5 calm 0;wants p at 0 long 2;wants p at 0 long 3;wants p at 0 long 1;wants p at 0 long 1;"
+        ThrownVoices x = Doc.good(VW + "person p pitch 5 calm 0;wants p at 0 long 2;wants p at 0 long 3;wants p at 0 long 1;"
+                + "wants p at 0 long 1;"
                 + "wants p at 1 long 1;wants p at 1 long 1;");
         Doc.row("nothing at first", Doc.of(x.has(12), x.kept(0, 0)), 0, -1);
         x.minutes(1);
@@ -342,7 +347,8 @@ final class SayingTerms {
     // ---- acts
 
     private static void acts() {
-        Doc.terms("II", "ACTS: MINUTES, by the seed; a VOICE is STRUCK; it is healed; it is trained to a pitch; a SAYING TO COME is put off to another MINUTE.");
+        Doc.terms("II", "ACTS: MINUTES, by the seed; a VOICE is STRUCK; it is healed; it is trained to a pitch;"
+                + " a SAYING TO COME is put off to another MINUTE.");
         ThrownVoices x = Doc.good(V + P + "wants p at 500 long 1;");
         long[] acts = new long[11];
         x.minutes(60);

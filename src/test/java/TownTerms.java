@@ -132,7 +132,8 @@ final class TownTerms {
 
     // ---- sums
 
-    private static final String TWO = "voice v pitch 7;voice w pitch 2;person p pitch 3 calm 50;wants p at 0 long 20;wants p at 1 long 4;";
+    private static final String TWO = "voice v pitch 7;voice w pitch 2;person p pitch 3 calm 50;wants p at 0 long 20;"
+            + "wants p at 1 long 4;";
 
     private static void sum(String picks, long want) {
         Doc.due(picks, Doc.good(TWO + "picks " + picks + ";").picks(1, 0), want);
@@ -191,14 +192,16 @@ final class TownTerms {
         Doc.fault(1, "hush ^busy=1;");
         Doc.fault(1, "picks if(1=^busy,1,2);");
         Doc.terms("I", "(Of the SAYING the pitch of its PERSON, for how many MINUTES it has waited, how long it is; the MINUTE;"
-                + " of the VOICE how many SAYINGS it has begun, its pitch; how many VOICES are busy, it too; how calm the PERSON is.)");
+                + " of the VOICE how many SAYINGS it has begun, its pitch; how many VOICES are busy, it too;"
+                + " how calm the PERSON is.)");
         // Nobody picks ahead of MINUTE 2; then v does, the first of like ones.
         ThrownVoices x = Doc.at(2, TWO + "picks if(minute<2,0,1000*(100*minute+10*waits+load)+100*long+10*tone+pitch);");
         Doc.row("ahead", Doc.of(x.picks(0, 0), x.picks(0, 1), x.picks(1, 0)), 222037, 222032, 210437);
         x.minutes(1);
         Doc.row("behind", Doc.of(x.picks(0, 0), x.picks(1, 0), x.picks(1, 1)), 323037, 311437, 311432);
         // v begins the first SAYING, w the second one.
-        String both = "voice v pitch 7;voice w pitch 2;person p pitch 3 calm 2;wants p at 0 long 9;wants p at 0 long 4;wants p at 0 long 5;picks 1;";
+        String both = "voice v pitch 7;voice w pitch 2;person p pitch 3 calm 2;wants p at 0 long 9;wants p at 0 long 4;"
+                + "wants p at 0 long 5;picks 1;";
         Doc.row("busy is 1, then 2", mixed(both, "busy=1"), 1, 0);
         Doc.row("busy is 1, then 2", mixed(both, "busy=2"), 0, 1);
         Doc.row("pitch in mixes", mixed(both, "pitch=7"), 1, 0);
@@ -268,6 +271,14 @@ final class TownTerms {
         test("2=2", true);
         test("3=2", false);
         test("0-1<0", true);
+        for (String fact : new String[] {"1<2", "2>1", "2=2", "[1<2]", "not 2<1", "not not 1<2", "all"}) {
+            test(fact + " and all", true);
+            test("all and " + fact, true);
+            test("not " + fact, false);
+            test("not [" + fact + " and not all] and " + fact, true);
+            test("not all or " + fact, true);
+            test(fact + " or " + fact + " and not all", true);
+        }
         Doc.fault(1, "hush not^;");
         Doc.fault(1, "hush [^];");
         Doc.fault(1, "hush [all^;");
@@ -330,8 +341,10 @@ final class TownTerms {
 
     private static void names() {
         Doc.terms("I", "NAMES: 1 to 6 letters, unlike ones (of both sorts), told ahead of where they are asked.");
-        ThrownVoices x = Doc.good("voice a pitch 1;person abcdef pitch 1 calm 1;voice zzzzzz pitch 1;voice az pitch 1;voice za pitch 2;");
-        Doc.row("first and last letters", Doc.of(x.letter(0, 0, 0), x.letter(0, 0, 1), x.letter(1, 0, 5), x.letter(0, 1, 5)), 1, 0, 6, 26);
+        ThrownVoices x = Doc.good("voice a pitch 1;person abcdef pitch 1 calm 1;voice zzzzzz pitch 1;voice az pitch 1;"
+                + "voice za pitch 2;");
+        Doc.row("first and last letters", Doc.of(x.letter(0, 0, 0), x.letter(0, 0, 1), x.letter(1, 0, 5), x.letter(0, 1, 5)),
+                1, 0, 6, 26);
         Doc.fault(1, "voice ^;");
         Doc.fault(1, "voice abcdef^g pitch 1;");
         Doc.fault(1, "person abcdef^g pitch 1 calm 1;");
@@ -527,7 +540,8 @@ final class TownTerms {
         Doc.fault(5, "mixes not not not not not not not all or not not not not not not not ^not all;");
         Doc.good("picks (((((((1)))))))+min(1,((((((2)))))))*if([[[[[[all]]]]]],1,2);");
         Doc.fault(5, "picks (((((((1)))))))+(((((((min^(1,2))))))));");
-        Doc.good("mixes " + "not ".repeat(7) + "all and " + "not ".repeat(7) + "all;hush " + "[".repeat(7) + "all" + "]".repeat(7) + ";");
+        Doc.good("mixes " + "not ".repeat(7) + "all and " + "not ".repeat(7) + "all;hush " + "[".repeat(7) + "all"
+                + "]".repeat(7) + ";");
     }
 
     private static void oneTooMany() {
@@ -539,7 +553,8 @@ final class TownTerms {
         Doc.fault(6, "picks 1;stroke 1; ^picks");
         Doc.fault(6, "mixes all;stroke 1; ^mixes");
         Doc.fault(6, "hush all;stroke 1; ^hush");
-        Doc.good(voices(7) + persons(8) + "wants pa at 0 long 1;".repeat(12) + "picks 1;mixes all;hush all;" + "stroke 1;".repeat(50));
+        Doc.good(voices(7) + persons(8) + "wants pa at 0 long 1;".repeat(12) + "picks 1;mixes all;hush all;"
+                + "stroke 1;".repeat(50));
         Doc.fault(1, voices(7) + "^voicex");
         Doc.fault(1, voices(7) + "voicex^x");
     }
@@ -547,7 +562,8 @@ final class TownTerms {
     private static void the81st() {
         Doc.terms("I", "or the 81st STATEMENT (whatever it is), at its first byte.");
         String full = "stroke 1;".repeat(80);
-        String[] begins = {"stroke 1;", "voice v pitch 1;", "picks 1;", "stroke", "voic", "max(1,2)", "abcdefg", "12345", "1a", ";", "(", "$", "\0"};
+        String[] begins = {"stroke 1;", "voice v pitch 1;", "picks 1;", "stroke", "voic", "max(1,2)", "abcdefg", "12345", "1a",
+                ";", "(", "$", "\0"};
         for (String first : begins) {
             Doc.fault(6, full + "^" + first);
             Doc.fault(6, full + " \n^" + first);
