@@ -509,8 +509,8 @@ final class ActBounds {
         Check.put(x, Doc.sealed(new int[] {3, 232, 0}));
         Doc.row("MINUTE 1000", Doc.of(x.on() ? 1 : 0, x.has(3)), 0, 999);
         // All bytes but the last one, in a small town: only what the document lets be is taken.
-        ThrownVoices y = Doc.good(V + P + "wants p at 0 long 3;");
         for (int what = 0; what < 7; what++) {
+            ThrownVoices y = Doc.good(V + P + "wants p at 0 long 3;");
             for (int voice : new int[] {0, 1, 254, 255}) {
                 for (int left = 0; left < 5; left++) {
                     for (int struck = 0; struck < 3; struck++) {

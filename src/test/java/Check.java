@@ -64,18 +64,14 @@ final class Check {
         return bytes;
     }
 
-    /** All that can be asked of what stands now, in one text. */
+    /** What stands now in one text, asked by few calls: an object is used for 512 at most. */
     static String all(ThrownVoices x) {
         StringBuilder out = new StringBuilder();
-        for (int what = -1; what < 17; what++) out.append(x.has(what)).append(' ');
-        for (int v = 0; v < 8; v++) for (int what = -1; what < 5; what++) out.append(x.voice(v, what)).append(' ');
-        for (int p = 0; p < 9; p++) for (int what = -1; what < 5; what++) out.append(x.person(p, what)).append(' ');
-        for (int s = 0; s < 13; s++) for (int what = -1; what < 9; what++) out.append(x.saying(s, what)).append(' ');
-        for (int k = 0; k < 13; k++) for (int what = -1; what < 4; what++) out.append(x.kept(k, what)).append(' ');
-        for (int kind = 0; kind < 2; kind++) {
-            for (int n = 0; n < 9; n++) for (int k = -1; k < 7; k++) out.append(x.letter(kind, n, k)).append(' ');
-        }
-        for (int s = 0; s < 13; s++) for (int v = 0; v < 8; v++) out.append(x.picks(s, v)).append(' ');
+        for (int what = 0; what < 16; what++) out.append(x.has(what)).append(' ');
+        for (int k = 0; k < x.has(12); k++) for (int what = 0; what < 3; what++) out.append(x.kept(k, what)).append(' ');
+        for (int p = 0; p < x.has(1); p++) out.append(x.person(p, 0)).append(' ').append(x.person(p, 1)).append(' ');
+        for (int s = 0; s < x.has(2); s++) out.append(x.picks(s, 0)).append(' ');
+        for (int octet : image(x)) out.append(octet).append(' ');
         return out.toString();
     }
 }

@@ -1,3 +1,6 @@
+import java.util.List;
+import java.util.function.Supplier;
+
 /** Every call with far numbers in several states: it answers, and what only asks changes nothing. */
 public final class EdgesTest {
     private static final int[] FAR = {Integer.MIN_VALUE, -1000000, -2, -1, 0, 1, 2, 6, 7, 8, 11, 12, 13, 30, 31,
@@ -7,22 +10,32 @@ public final class EdgesTest {
     private EdgesTest() { }
 
     public static void main(String[] args) {
-        ThrownVoices[] all = {new ThrownVoices(), Check.town("stroke 100;"), big(), late(), Check.town("voice a pitch 1;"),
-            Check.town("person a pitch 1 calm 1;wants a at 0 long 1;")};
-        for (ThrownVoices x : all) {
-            for (int times = 0; times < 3; times++) {
-                String ahead = Check.all(x);
-                ask(x);
-                Check.due("asking changes nothing", Check.all(x).equals(ahead), true);
-                refuse(x);
-                Check.due("refusing changes nothing", Check.all(x).equals(ahead), true);
-                x.chance(1);
-                x.minutes(1);
+        List<Supplier<ThrownVoices>> all = List.of(ThrownVoices::new, () -> Check.town("stroke 100;"), EdgesTest::big,
+                EdgesTest::late, () -> Check.town("voice a pitch 1;"),
+                () -> Check.town("person a pitch 1 calm 1;wants a at 0 long 1;"));
+        for (Supplier<ThrownVoices> make : all) {
+            for (int steps = 0; steps < 3; steps++) {
+                ask(make, steps);
+                refuse(make, steps);
             }
         }
         worstTime();
         Check.due("answers were read", sum != 1, true);
         Check.end();
+    }
+
+    /** An object is used for 512 calls at most, so that each number asked has one of its own. */
+    private static ThrownVoices made(Supplier<ThrownVoices> make, int steps) {
+        ThrownVoices x = make.get();
+        for (int i = 0; i < steps; i++) {
+            x.chance(1);
+            x.minutes(1);
+        }
+        return x;
+    }
+
+    private static void same(ThrownVoices x, String ahead) {
+        Check.due("asking and refusing change nothing", Check.all(x).equals(ahead), true);
     }
 
     private static ThrownVoices big() {
@@ -40,21 +53,29 @@ public final class EdgesTest {
         return x;
     }
 
-    private static void ask(ThrownVoices x) {
+    private static void ask(Supplier<ThrownVoices> make, int steps) {
+        String ahead = Check.all(made(make, steps));
         for (int a : FAR) {
+            ThrownVoices x = made(make, steps);
             sum += x.fault(a) + x.has(a) + x.ends(a) + x.busy(a) + x.match(a) + x.choir(a) + x.needed(a);
             sum += x.odds(a) + x.pitches(a) + x.octet(a) + x.status(a);
             for (int b : FAR) {
                 sum += x.voice(a, b) + x.person(a, b) + x.saying(a, b) + x.picks(a, b) + x.worst(a, b);
                 sum += x.tells(a, b) + x.kept(a, b);
-                for (int c : FAR) sum += x.later(a, b, c) + x.tune(a, b, c) + x.letter(a, b, c);
+            }
+            same(x, ahead);
+            for (int b : FAR) {
+                ThrownVoices y = made(make, steps);
+                for (int c : FAR) sum += y.later(a, b, c) + y.tune(a, b, c) + y.letter(a, b, c);
+                same(y, ahead);
             }
         }
-        sum += x.image();
     }
 
-    private static void refuse(ThrownVoices x) {
+    private static void refuse(Supplier<ThrownVoices> make, int steps) {
+        String ahead = Check.all(made(make, steps));
         for (int a : FAR) {
+            ThrownVoices x = made(make, steps);
             if (a < 0) Check.due("seed(" + a + ")", x.seed(a), false);
             if (a < 0 || a > 60) {
                 Check.due("minutes(" + a + ")", x.minutes(a), -1);
@@ -69,11 +90,12 @@ public final class EdgesTest {
                 }
                 if (a < 0 || a > 999) Check.due("delay(0, " + a + ")", x.delay(0, a), false);
             }
+            Check.due("hear()", x.hear(), -1);
+            Check.due("on()", x.on(), false);
+            Check.put(x, '$');
+            Check.due("town()", x.town(), -1);
+            same(x, ahead);
         }
-        Check.due("hear()", x.hear(), -1);
-        Check.due("on()", x.on(), false);
-        Check.put(x, '$');
-        Check.due("town()", x.town(), -1);
     }
 
     /** The dearest calls of the longest rules still end soon. */

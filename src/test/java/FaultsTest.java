@@ -281,7 +281,7 @@ public final class FaultsTest {
     /** What one text left behind, refused or not, is nothing to the next one. */
     private static void oneAfterTheOther() {
         ThrownVoices x = new ThrownVoices();
-        for (int times = 0; times < 9; times++) {
+        for (int times = 0; times < 3; times++) {
             StringBuilder longRule = new StringBuilder("voice v pitch 1;person p pitch 9 calm 1;wants p at 0 long 1;"
                     + "stroke 100;mixes all;hush all;picks 2");
             while (longRule.length() < 1500) longRule.append("+1");
@@ -302,6 +302,6 @@ public final class FaultsTest {
             Check.put(x, Check.bytes("mixes (((((((1)))))))=1;"));
             Check.due("town() seven deep", x.town(), 1);
         }
-        Check.due("status(1)", x.status(1), 9);
+        Check.due("status(1)", x.status(1), 3);
     }
 }

@@ -242,8 +242,8 @@ final class PromiseBounds {
             V + P + "wants p at 1 long 20;".repeat(12) + "x", "stroke 1;".repeat(81), "voice v"};
         StringBuilder longRule = new StringBuilder(V + P + "wants p at 0 long 1;picks 2");
         while (longRule.length() < 1590) longRule.append("+1");
-        ThrownVoices x = new ThrownVoices();
         for (String text : faults) {
+            ThrownVoices x = new ThrownVoices();
             Check.put(x, Check.bytes(text));
             Doc.due("town() of " + text, x.town(), -1);
             Check.put(x, Check.bytes(longRule + ";"));

@@ -626,41 +626,40 @@ public final class PromisesTest {
         ThrownVoices x = Check.town(TWO);
         due("undo() of none", x.undo(), false);
         due("status(4)", x.status(4), 1);
-        String[] states = new String[26];
-        int[] seeds = new int[26];
-        for (int i = 0; i < 25; i++) {
-            states[i] = seedless(x);
-            seeds[i] = x.has(15);
+        for (int undone = 0; undone <= 20; undone++) {
+            ThrownVoices there = after(25 - undone);
+            ThrownVoices back = after(25);
+            int drawn = back.has(15);
+            for (int i = 0; i < undone; i++) due("undo() " + i, back.undo(), true);
+            due("as it was behind " + (25 - undone) + " ACTS", withoutSeedAndActs(back).equals(withoutSeedAndActs(there)), true);
+            due("ACTS", back.has(14), 20 - undone);
+            due("seed stays", back.has(15), drawn);
+            if (undone == 20) {
+                due("undo() of the 21st", back.undo(), false);
+                due("status(4)", back.status(4), 1);
+            }
+        }
+    }
+
+    private static ThrownVoices after(int acts) {
+        ThrownVoices x = Check.town(TWO);
+        for (int i = 0; i < acts; i++) {
             switch (i % 5) {
-                case 0: x.train(0, i % 9); break;
+                case 0: x.train(0, x.voice(0, 0) == i % 9 ? 9 : i % 9); break;
                 case 1: x.chance(1); break;
                 case 2: if (x.voice(0, 1) == 1) x.heal(0); else x.strike(0); break;
                 case 3: x.minutes(1); break;
-                default: if (!x.delay(2, 500 + i)) x.train(1, x.voice(1, 0) + 1);
+                default: if (!x.delay(2, 500 + i)) x.train(1, (x.voice(1, 0) + 1) % 10);
             }
         }
-        int drawn = x.has(15);
-        due("ACTS", x.has(14), 20);
-        for (int i = 24; i >= 5; i--) {
-            due("undo() " + i, x.undo(), true);
-            due("as it was " + i, withoutActs(seedless(x)).equals(withoutActs(states[i])), true);
-            due("ACTS", x.has(14), i - 5);
-        }
-        due("undo() of the 21st", x.undo(), false);
-        due("status(4)", x.status(4), 2);
-        due("seed stays", x.has(15), drawn);
+        return x;
     }
 
-    /** All that is told but the seed. */
-    private static String seedless(ThrownVoices x) {
-        String all = Check.all(x);
-        return all.replaceFirst(" " + x.has(15) + " -1 ", " seed -1 ");
-    }
-
-    /** The 16th word is how many ACTS can be undone. */
-    private static String withoutActs(String all) {
-        String[] words = all.split(" ");
-        words[15] = "acts";
+    /** The 15th and the 16th word are how many ACTS can be undone, and the seed. */
+    private static String withoutSeedAndActs(ThrownVoices x) {
+        String[] words = Check.all(x).split(" ");
+        words[14] = "acts";
+        words[15] = "seed";
         return String.join(" ", words);
     }
 
@@ -772,6 +771,20 @@ public final class PromisesTest {
         int[] back = Check.image(x);
         for (int k = 0; k < image.length; k++) due("image [" + k + "]", back[k], image[k]);
         due("the tape went", x.end(1), false);
+        onWrong(image);
+        otherImages();
+        onGood(image);
+    }
+
+    /** The town on this image, as a new object. */
+    private static ThrownVoices on(int[] image) {
+        ThrownVoices x = Check.town(TWO);
+        Check.put(x, image);
+        due("on()", x.on(), true);
+        return x;
+    }
+
+    private static void onWrong(int[] image) {
         // Each of these alone makes it none such: byte and value. Bytes 8 .. are the SAYINGS, 7 each.
         int[][] wrong = {{0, 4}, {2, 10}, {3, 2}, {4, 100}, {3, 1}, {8, 6}, {9, 4}, {11, 100}, {12, 2}, {12, 255},
             {13, 0}, {13, 3}, {14, 2}, {12, 1}, {8, 0}, {8, 1}, {8, 3}, {22, 3}, {25, 1}, {26, 0}, {27, 1}, {28, 1}};
@@ -779,16 +792,17 @@ public final class PromisesTest {
             int[] bad = image.clone();
             bad[one[0]] = one[1];
             seal(bad);
-            refuse(x, bad, "byte " + one[0] + " is " + one[1]);
+            refuse(on(image), bad, "byte " + one[0] + " is " + one[1]);
         }
         int[] bad = image.clone();
         bad[image.length - 1] = (bad[image.length - 1] + 1) % 251;
-        refuse(x, bad, "the last byte");
-        refuse(x, java.util.Arrays.copyOf(image, image.length - 1), "a byte less");
-        refuse(x, java.util.Arrays.copyOf(image, image.length + 1), "a byte more");
-        refuse(x, new int[0], "no bytes");
-        due("status(5)", x.status(5), wrong.length + 4);
-        otherImages();
+        refuse(on(image), bad, "the last byte");
+        refuse(on(image), java.util.Arrays.copyOf(image, image.length - 1), "a byte less");
+        refuse(on(image), java.util.Arrays.copyOf(image, image.length + 1), "a byte more");
+        refuse(on(image), new int[0], "no bytes");
+    }
+
+    private static void onGood(int[] image) {
         // These can be: the edges of what the document tells.
         int[][] good = {{0, 3, 1, 231}, {2, 9, 4, 99}, {9, 3, 10, 231}, {11, 99, 14, 1}, {13, 2, 14, 0},
             {8, 3, 13, 0}, {8, 5, 13, 0}, {22, 1, 25, 99}, {22, 4, 25, 99}, {23, 0, 24, 0}};
@@ -797,17 +811,17 @@ public final class PromisesTest {
             other[two[0]] = two[1];
             other[two[2]] = two[3];
             seal(other);
-            Check.put(x, other);
-            due("on() of bytes " + two[0] + ", " + two[2], x.on(), true);
-            int[] told = Check.image(x);
-            for (int k = 0; k < told.length; k++) due("byte " + k, told[k], other[k]);
+            int[] told = Check.image(on(other));
+            for (int k = 0; k < told.length; k++) due("bytes " + two[0] + ", " + two[2] + ": byte " + k, told[k], other[k]);
         }
     }
 
     private static void refuse(ThrownVoices x, int[] bytes, String why) {
         String ahead = Check.all(x);
         Check.put(x, bytes);
+        int refused = x.status(5);
         due("on() where " + why, x.on(), false);
+        due("status(5)", x.status(5), refused + 1);
         due("all stays where " + why, Check.all(x).equals(ahead), true);
     }
 
