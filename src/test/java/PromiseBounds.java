@@ -246,9 +246,11 @@ final class PromiseBounds {
             ThrownVoices x = new ThrownVoices();
             Check.put(x, Check.bytes(text));
             Doc.due("town() of " + text, x.town(), -1);
-            Check.put(x, Check.bytes(longRule + ";"));
-            Doc.due("town() of a long rule behind " + text, x.town(), 4);
-            Doc.due("its SUM", x.picks(0, 0), 2 + longRule.chars().filter(c -> c == '+').count());
+            for (int times = 0; times < 2; times++) {
+                Check.put(x, Check.bytes(longRule + ";"));
+                Doc.due("town() of a long rule behind " + text, x.town(), 4);
+                Doc.due("its SUM", x.picks(0, 0), 2 + longRule.chars().filter(c -> c == '+').count());
+            }
             Check.put(x, Check.bytes(text));
             Doc.due("town() of " + text, x.town(), -1);
             Check.put(x, Check.bytes("voice w pitch 5;" + P + "wants p at 0 long 2;picks (((((((pitch)))))));"
