@@ -18,6 +18,10 @@ final class Check {
         due(call, got ? 1 : 0, want ? 1 : 0);
     }
 
+    static void due(String what, String got, String want) {
+        due(what + " is <<" + got + ">>, due is <<" + want + ">>", got.equals(want), true);
+    }
+
     static void end() {
         System.out.println(wrong == 0 ? asked + " answers, all as due" : wrong + " answers not as due");
         if (wrong != 0) System.exit(1);

@@ -276,10 +276,9 @@ public final class ModelTest {
     }
 
     private static void on() {
-        byte[] bytes = new byte[y.image()];
-        due("image()", x.image(), bytes.length);
-        for (int k = 0; k < bytes.length; k++) bytes[k] = (byte) y.octet(k);
-        for (int times = roll(3); times > 0; times--) {
+        boolean other = roll(3) == 0;
+        byte[] bytes = other ? otherImage() : sameImage();
+        for (int times = roll(other ? 2 : 3); times > 0; times--) {
             int at = roll(bytes.length);
             int[] likely = {0, 1, 2, 3, 4, 5, 9, 10, 99, 100, 255, roll(256), bytes[at] + 1, bytes[at] - 1};
             bytes[at] = (byte) likely[roll(likely.length)];
@@ -292,6 +291,43 @@ public final class ModelTest {
         if (roll(12) == 0) bytes = java.util.Arrays.copyOf(bytes, Math.max(0, bytes.length + roll(3) - 1));
         put(bytes);
         due("on()", x.on(), y.on());
+    }
+
+    private static byte[] sameImage() {
+        byte[] bytes = new byte[y.image()];
+        due("image()", x.image(), bytes.length);
+        for (int k = 0; k < bytes.length; k++) bytes[k] = (byte) y.octet(k);
+        return bytes;
+    }
+
+    /** What minutes alone seldom lead to: many that WAIT long, VOICES STRUCK, worn out, all busy. */
+    private static byte[] otherImage() {
+        int voices = y.now.voices.size();
+        boolean[] taken = new boolean[voices];
+        byte[] bytes = new byte[3 + 3 * voices + 7 * y.now.sayings.size()];
+        bytes[1] = (byte) roll(13);
+        int at = 2;
+        for (int v = 0; v < voices; v++, at += 3) {
+            taken[v] = roll(5) == 0;
+            bytes[at] = (byte) roll(10);
+            bytes[at + 1] = (byte) (taken[v] ? 1 : 0);
+            bytes[at + 2] = (byte) (roll(2) == 0 ? roll(4) : 97 + roll(3));
+        }
+        for (int s = 0; s < y.now.sayings.size(); s++, at += 7) {
+            int voice = roll(Math.max(1, voices));
+            int what = new int[] {0, 1, 1, 1, 2, 2, 3, 4, 5}[roll(9)];
+            boolean has = what == 2 || what == 3 || what == 5;
+            if (has && voices == 0 || what == 2 && taken[voice]) what = 1;
+            if (what == 2) taken[voice] = true;
+            has = what == 2 || what == 3 || what == 5;
+            bytes[at] = (byte) what;
+            bytes[at + 2] = (byte) roll(15);
+            bytes[at + 3] = (byte) (what == 0 ? 0 : roll(4) == 0 ? 97 + roll(3) : roll(4));
+            bytes[at + 4] = (byte) (has ? voice : 255);
+            bytes[at + 5] = (byte) (what == 2 ? 1 + roll(y.town.wants.get(s).length()) : 0);
+            bytes[at + 6] = (byte) (has ? roll(2) : 0);
+        }
+        return bytes;
     }
 
     private static void ask() {
